@@ -305,26 +305,7 @@ public final class BoilerPapers {
             coldWeeks = 0;
         }
 
-        /** Brings the boiler into the new week; true if it is put out by that. */
-        boolean enter(int week) {
-            age();
-            if (condition == IN_REPAIR && repairEnd <= week) {
-                endRepair();
-            }
-            if (paperGiven && paperLast < week) {
-                paperGiven = false;
-            }
-            if (shutPlanned && shutLast < week) {
-                shutPlanned = false;
-            }
-            if (condition != UNDER_STEAM || paperGiven && !isShutIn(week)) {
-                return false;
-            }
-            becomeCold();
-            return true;
-        }
-
-        private void age() {
+        void age() {
             if (condition == UNDER_STEAM) {
                 wear = Math.min(MOST_WEAR, wear + 1 + working / 10);
             } else if (condition == COLD) {
@@ -332,11 +313,27 @@ public final class BoilerPapers {
             }
         }
 
-        private void endRepair() {
+        void endRepairIn(int week) {
+            if (condition != IN_REPAIR || repairEnd > week) {
+                return;
+            }
             becomeCold();
             wear = wear / 4;
             repairAsked = false;
             paperGiven = false;
+        }
+
+        void dropWhatIsPastIn(int week) {
+            if (paperGiven && paperLast < week) {
+                paperGiven = false;
+            }
+            if (shutPlanned && shutLast < week) {
+                shutPlanned = false;
+            }
+        }
+
+        boolean mustGoOutIn(int week) {
+            return condition == UNDER_STEAM && (!paperGiven || isShutIn(week));
         }
 
         int weeksUntilPutOut(int week) {
@@ -657,7 +654,14 @@ public final class BoilerPapers {
             int putOut = 0;
             for (int i = 0; i < boilerCount; i++) {
                 Boiler boiler = boilerAt(i);
-                if (boiler != null && boiler.enter(week)) {
+                if (boiler == null) {
+                    continue;
+                }
+                boiler.age();
+                boiler.endRepairIn(week);
+                boiler.dropWhatIsPastIn(week);
+                if (boiler.mustGoOutIn(week)) {
+                    boiler.becomeCold();
                     putOut++;
                 }
             }
@@ -954,7 +958,6 @@ public final class BoilerPapers {
         }
 
         void goToStart() {
-            start = 0;
             place = 0;
         }
 
@@ -1051,21 +1054,20 @@ public final class BoilerPapers {
             reason = NO_FAULT;
             text.goToStart();
             for (int i = 0; i < LONGEST_TEXT && reason == NO_FAULT && text.hasMore(); i++) {
-                doOrder(text, house);
+                if (text.readOrder()) {
+                    takeAnswer(text.start, house.obey(text.kind, text.one, text.other));
+                } else {
+                    stopAt(text.start, NOT_OF_THE_FORM, text.brokeOffAt());
+                }
             }
         }
 
-        private void doOrder(OrderText text, House house) {
-            if (!text.readOrder()) {
-                stopAt(text.start, NOT_OF_THE_FORM, text.brokeOffAt());
-                return;
-            }
-            int answer = house.obey(text.kind, text.one, text.other);
+        private void takeAnswer(int start, int answer) {
             if (isError(answer)) {
-                stopAt(text.start, NOT_DONE, answer);
-                return;
+                stopAt(start, NOT_DONE, answer);
+            } else {
+                orders++;
             }
-            orders++;
         }
 
         private void stopAt(int start, int why, int causedBy) {

@@ -4,7 +4,9 @@ public final class BoilersAndInspectorsTest {
         promise01NewObject();
         promise02Boiler();
         promise02LimitAndUndo();
+        promise02RowUsedAgain();
         promise03Inspector();
+        promise03RowUsedAgain();
         promise04Press();
         promise04PressUnderSteam();
         Check.finish();
@@ -64,6 +66,27 @@ public final class BoilersAndInspectorsTest {
         Check.due("boilerOf(6, 0)", x.boilerOf(6, 0), 16);
     }
 
+    private static void promise02RowUsedAgain() {
+        String[] texts = {"b20;i0,0;", "b20;i0,0;f0;w9;o0;w1;i0,1;r0;", "b20;i0,0;f0;w9;", "b20;w3;r0;"};
+        for (String text : texts) {
+            BoilerPapers x = new BoilerPapers();
+            x.inspector(0, 1);
+            x.inspector(1, 1);
+            x.set(1, 0);
+            Check.write(x, text);
+            x.play();
+            Check.due("'" + text + "' played", x.count(0), 1);
+            x.undo();
+            Check.due("boiler(5) after undo", x.boiler(5), 0);
+            int[] due = {5, 5, 0, 0, 1, Check.NONE, 0, Check.NONE, Check.NONE, 5};
+            for (int what = 0; what < due.length; what++) {
+                Check.due("boilerOf(0, " + what + ") after '" + text + "'", x.boilerOf(0, what), due[what]);
+            }
+            Check.due("paperOf(0, 2) after '" + text + "'", x.paperOf(0, 2), Check.NONE);
+            Check.due("why(0, 0) after '" + text + "'", x.why(0, 0), 0);
+        }
+    }
+
     private static void promise03Inspector() {
         BoilerPapers x = new BoilerPapers();
         int[][] wrong = {{-1, 1}, {2, 1}, {0, 0}, {1, 4}, {0, -1}, {Integer.MAX_VALUE, 1}, {1, Integer.MIN_VALUE}};
@@ -81,6 +104,22 @@ public final class BoilersAndInspectorsTest {
         }
         Check.refused("the seventh inspector", x, Check.LIMIT, y -> y.inspector(0, 1));
         Check.refused("inspector(2, 1) as the seventh", x, Check.INVALID, y -> y.inspector(2, 1));
+    }
+
+    private static void promise03RowUsedAgain() {
+        BoilerPapers x = new BoilerPapers();
+        x.boiler(10);
+        x.inspector(0, 3);
+        x.inspect(0, 0);
+        x.inspect(0, 0);
+        x.undo();
+        x.undo();
+        x.undo();
+        Check.due("inspector(1, 2) after undo", x.inspector(1, 2), 0);
+        int[] due = {1, 2, 2, 0, 0};
+        for (int what = 0; what < due.length; what++) {
+            Check.due("inspectorOf(0, " + what + ") of a row used again", x.inspectorOf(0, what), due[what]);
+        }
     }
 
     private static void promise04Press() {

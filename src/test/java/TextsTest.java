@@ -4,6 +4,7 @@ public final class TextsTest {
         promise24Type();
         promise25ClearText();
         promise26NotOfTheForm();
+        promise26EarlierText();
         promise26NotPossible();
         promise26FirstFaultOnly();
         promise26Errors();
@@ -101,6 +102,32 @@ public final class TextsTest {
         fault("b9;b", 3, 1, 1);
         fault("b9;;", 3, 1, 0);
         fault("b9; b9;", 3, 1, 0);
+    }
+
+    private static void promise26EarlierText() {
+        BoilerPapers x = house();
+        Check.write(x, "b9;b9;");
+        Check.write(x, "b8");
+        Check.due("nothing of the text before is read", x.fault(2), 2);
+        Check.due("nothing of the text before is played", x.play(), Check.IMPOSSIBLE);
+        x.type(';');
+        Check.due("play()", x.play(), 1);
+        StringBuilder full = new StringBuilder();
+        for (int i = 0; i < 14; i++) {
+            full.append("w01;");
+        }
+        Check.write(x, full + "w123");
+        Check.due("fault(0) at the end of 60", x.fault(0), 56);
+        Check.due("fault(2) at the end of 60", x.fault(2), 3);
+        Check.write(x, full + "xxw1");
+        Check.due("fault(0)", x.fault(0), 56);
+        Check.write(x, full + ";w12");
+        Check.due("fault(0)", x.fault(0), 56);
+        Check.write(x, full.substring(1) + "w1;w1");
+        Check.due("fault(2) of a text without its beginning", x.fault(2), 0);
+        Check.write(x, full + "b9;b");
+        Check.due("fault(0) of the 60th", x.fault(0), 59);
+        Check.due("fault(2) of the 60th", x.fault(2), 1);
     }
 
     private static void promise26NotPossible() {

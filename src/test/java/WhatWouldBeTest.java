@@ -3,6 +3,7 @@ public final class WhatWouldBeTest {
     public static void main(String[] args) {
         promise17Would();
         promise17WhateverKeepsIt();
+        promise17PressureOfOne();
         promise18BetterByLastWeek();
         promise18OnlyOneSuch();
         promise19First();
@@ -70,6 +71,19 @@ public final class WhatWouldBeTest {
         Check.due("its paper is as it was", x.paperOf(0, 0), Check.NONE);
     }
 
+    private static void promise17PressureOfOne() {
+        BoilerPapers x = new BoilerPapers();
+        x.boiler(2);
+        x.inspector(0, 1);
+        x.inspect(0, 0);
+        x.fire(0);
+        x.pass(5);
+        Check.due("would(0, 0, 0)", x.would(0, 0, 0), 1);
+        Check.due("would(0, 0, 1)", x.would(0, 0, 1), 5 + 51);
+        Check.due("would(0, 1, 0)", x.would(0, 1, 0), 0);
+        Check.due("would(0, 1, 1)", x.would(0, 1, 1), Check.NONE);
+    }
+
     private static void promise18BetterByLastWeek() {
         BoilerPapers x = worn(12, 40);
         Check.due("wear", x.boilerOf(0, 2), 60);
@@ -98,6 +112,12 @@ public final class WhatWouldBeTest {
         Check.due("none gives one", x.better(0), Check.NONE);
         x.set(0, 20);
         Check.due("only 0 gives one", x.better(0), 0);
+        x.press(0, 36);
+        Check.due("only 0 gives one, just that", x.better(0), 0);
+        x.press(0, 37);
+        Check.due("only 0 gives one, less than that", x.better(0), Check.NONE);
+        x.boiler(2);
+        Check.due("a new one", x.better(1), 0);
     }
 
     private static void promise19First() {
@@ -114,6 +134,7 @@ public final class WhatWouldBeTest {
         x.inspect(3, 1);
         Check.due("first(0), none under steam", x.first(0), Check.NONE);
         Check.due("first(1), none under steam", x.first(1), Check.NONE);
+        Check.due("first(2), none under steam", x.first(2), Check.INVALID);
         x.fire(0);
         Check.due("first(0)", x.first(0), 0);
         Check.due("first(1)", x.first(1), 52);
@@ -146,7 +167,12 @@ public final class WhatWouldBeTest {
         Check.due("by both", x.goesOn(0), 53);
         x.plan(0, 60, 1);
         Check.due("the paper comes first", x.goesOn(0), 53);
-        x.pass(52);
+        x.pass(50);
+        Check.due("50 weeks later", x.goesOn(0), 3);
+        x.plan(0, 52, 3);
+        Check.due("50 weeks later by its shutdown", x.goesOn(0), 2);
+        x.plan(0, 53, 3);
+        x.pass(2);
         Check.due("the last week", x.goesOn(0), 1);
         x.pass(1);
         Check.due("goesOn when it is out", x.goesOn(0), Check.IMPOSSIBLE);
