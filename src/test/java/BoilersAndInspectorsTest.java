@@ -2,154 +2,106 @@
 public final class BoilersAndInspectorsTest {
     public static void main(String[] args) {
         promise01NewObject();
+        promise01ObjectsOfTheirOwn();
         promise02Boiler();
-        promise02LimitAndUndo();
-        promise02RowUsedAgain();
+        promise02NumberUsedAgain();
         promise03Inspector();
-        promise03RowUsedAgain();
+        promise03NumberUsedAgain();
         promise04Press();
         promise04PressUnderSteam();
+        promise04PressOfOthers();
         Check.finish();
     }
 
     private static void promise01NewObject() {
+        Script.run("Creates a house without boilers and inspectors", """
+            count(0..14) = 0 | count(15..19) = INVALID | count(20..23) = 120 90 8 15 | count(24) = INVALID
+            account(0..3) = 0 | first(0..1) = NOT_FOUND | fault(0..2) = NOT_FOUND | undo() = NOT_POSSIBLE
+            boilerOf(0, 0..9) = INVALID | paperOf(0, 0..2) = INVALID | inspectorOf(0, 0..4) = INVALID
+            why(0, -1..0) = INVALID | would(0, 0..1, 0) = INVALID | better(0) = INVALID | goesOn(0) = INVALID
+            share(0) = INVALID | press(0, 1) = INVALID | inspect(0, 0) = INVALID | fire(0) = INVALID
+            out(0) = INVALID
+            plan(0, 0, 1) = INVALID | repair(0) = INVALID | clearText() = 0 | pass(1) = 0 | count(2) = 1
+            """);
+    }
+
+    private static void promise01ObjectsOfTheirOwn() {
         BoilerPapers x = new BoilerPapers();
-        for (int what = 0; what <= 14; what++) {
-            Check.due("new count(" + what + ")", x.count(what), 0);
-        }
-        Check.due("new count(20)", x.count(20), 120);
-        Check.due("new count(21)", x.count(21), 90);
-        Check.due("new count(22)", x.count(22), 8);
-        Check.due("new count(23)", x.count(23), 15);
-        for (int whose = 0; whose < 4; whose++) {
-            Check.due("new account(" + whose + ")", x.account(whose), 0);
-        }
-        Check.due("new undo()", x.undo(), Check.IMPOSSIBLE);
-        Check.due("new fault(0)", x.fault(0), Check.NONE);
         BoilerPapers y = new BoilerPapers();
-        y.boiler(9);
-        Check.due("boilers of another object", x.count(0), 0);
+        x.boiler(9);
+        x.inspector(0, 1);
+        x.set(0, 5);
+        x.pass(3);
+        x.type('b');
+        Check.same("another object", View.of(y) + View.ofText(y), View.of(new BoilerPapers()) + View.ofText(new BoilerPapers()));
+        Check.due("undo() of another object", y.undo(), Check.IMPOSSIBLE);
+        BoilerPapers z = new BoilerPapers();
+        Check.same("a later object", View.of(z) + View.ofText(z), View.of(y) + View.ofText(y));
     }
 
     private static void promise02Boiler() {
-        BoilerPapers x = new BoilerPapers();
-        int[] wrong = {1, 41, 0, -1, Integer.MIN_VALUE, Integer.MAX_VALUE};
-        for (int pressure : wrong) {
-            Check.refused("boiler(" + pressure + ")", x, Check.INVALID, y -> y.boiler(pressure));
-        }
-        Check.due("boiler(2)", x.boiler(2), 0);
-        Check.due("boiler(40)", x.boiler(40), 1);
-        int[] due = {40, 40, 0, 0, 1, Check.NONE, 0, Check.NONE, Check.NONE, 40};
-        for (int what = 0; what < due.length; what++) {
-            Check.due("new boiler, boilerOf(1, " + what + ")", x.boilerOf(1, what), due[what]);
-        }
-        Check.due("new boiler, paperOf(1, 0)", x.paperOf(1, 0), Check.NONE);
+        Script.run("Adds a boiler. Returns its number", """
+            boiler(20) = 0 | boilerOf(0, 0..9) = 20 20 0 0 1 - 0 - - 20 | paperOf(0, 0..2) = NOT_FOUND
+            pass(7) = 0 | boiler(2) = 1 | boilerOf(1, 0..9) = 2 2 0 0 1 - 0 - - 2 | boilerOf(0, 4) = 8
+            """);
     }
 
-    private static void promise02LimitAndUndo() {
-        BoilerPapers x = new BoilerPapers();
-        for (int i = 0; i < 8; i++) {
-            Check.due("boiler " + i, x.boiler(10 + i), i);
-        }
-        Check.refused("the ninth boiler", x, Check.LIMIT, y -> y.boiler(10));
-        Check.refused("boiler(41) as the ninth", x, Check.INVALID, y -> y.boiler(41));
-        x.repair(7);
-        x.plan(7, 3, 4);
-        Check.due("undo()", x.undo(), 3);
-        Check.due("undo()", x.undo(), 2);
-        Check.due("undo()", x.undo(), 1);
-        Check.due("boiler(5) after undo", x.boiler(5), 7);
-        int[] due = {5, 5, 0, 0, 1, Check.NONE, 0, Check.NONE, Check.NONE, 5};
-        for (int what = 0; what < due.length; what++) {
-            Check.due("boilerOf(7, " + what + ") of a row used again", x.boilerOf(7, what), due[what]);
-        }
-        Check.due("boilerOf(6, 0)", x.boilerOf(6, 0), 16);
-    }
-
-    private static void promise02RowUsedAgain() {
-        String[] texts = {"b20;i0,0;", "b20;i0,0;f0;w9;o0;w1;i0,1;r0;", "b20;i0,0;f0;w9;", "b20;w3;r0;"};
+    private static void promise02NumberUsedAgain() {
+        String[] texts = {"b20;i0,0;", "b20;i0,0;f0;w9;o0;w1;i0,1;r0;", "b20;i0,0;f0;w9;", "b20;w3;r0;", "b20;i0,0;f0;"};
         for (String text : texts) {
-            BoilerPapers x = new BoilerPapers();
-            x.inspector(0, 1);
-            x.inspector(1, 1);
-            x.set(1, 0);
-            Check.write(x, text);
-            x.play();
-            Check.due("'" + text + "' played", x.count(0), 1);
-            x.undo();
-            Check.due("boiler(5) after undo", x.boiler(5), 0);
-            int[] due = {5, 5, 0, 0, 1, Check.NONE, 0, Check.NONE, Check.NONE, 5};
-            for (int what = 0; what < due.length; what++) {
-                Check.due("boilerOf(0, " + what + ") after '" + text + "'", x.boilerOf(0, what), due[what]);
-            }
-            Check.due("paperOf(0, 2) after '" + text + "'", x.paperOf(0, 2), Check.NONE);
-            Check.due("why(0, 0) after '" + text + "'", x.why(0, 0), 0);
+            Script.run("Adds a boiler (with the number of one that was undone)", """
+                inspector(0, 1) = 0 | inspector(1, 1) = 1 | set(1, 0) = 90
+                """, "text \"" + text + "\"\n", """
+                play() | count(0) = 1 | plan(0, 50, 2) = 51 | undo() = 3 | undo() = 2
+                boiler(5) = 0 | boilerOf(0, 0..9) = 5 5 0 0 1 - 0 - - 5 | paperOf(0, 0..2) = NOT_FOUND
+            why(0, 0) = 0
+                """);
         }
     }
 
     private static void promise03Inspector() {
-        BoilerPapers x = new BoilerPapers();
-        int[][] wrong = {{-1, 1}, {2, 1}, {0, 0}, {1, 4}, {0, -1}, {Integer.MAX_VALUE, 1}, {1, Integer.MIN_VALUE}};
-        for (int[] pair : wrong) {
-            String call = "inspector(" + pair[0] + ", " + pair[1] + ")";
-            Check.refused(call, x, Check.INVALID, y -> y.inspector(pair[0], pair[1]));
-        }
-        for (int i = 0; i < 6; i++) {
-            Check.due("inspector " + i, x.inspector(i % 2, 1 + i % 3), i);
-            Check.due("its insurer", x.inspectorOf(i, 0), i % 2);
-            Check.due("its inspections in a week", x.inspectorOf(i, 1), 1 + i % 3);
-            Check.due("its inspections left", x.inspectorOf(i, 2), 1 + i % 3);
-            Check.due("its inspections so far", x.inspectorOf(i, 3), 0);
-            Check.due("its papers so far", x.inspectorOf(i, 4), 0);
-        }
-        Check.refused("the seventh inspector", x, Check.LIMIT, y -> y.inspector(0, 1));
-        Check.refused("inspector(2, 1) as the seventh", x, Check.INVALID, y -> y.inspector(2, 1));
+        Script.run("Adds an inspector. Returns its number", """
+            inspector(1, 2) = 0 | inspectorOf(0, 0..4) = 1 2 2 0 0 | inspector(0, 3) = 1
+            inspectorOf(1, 0..4) = 0 3 3 0 0
+            pass(1) = 0 | inspector(1, 1) = 2 | inspectorOf(2, 0..4) = 1 1 1 0 0 | inspector(0, 1) = 3
+            """);
     }
 
-    private static void promise03RowUsedAgain() {
-        BoilerPapers x = new BoilerPapers();
-        x.boiler(10);
-        x.inspector(0, 3);
-        x.inspect(0, 0);
-        x.inspect(0, 0);
-        x.undo();
-        x.undo();
-        x.undo();
-        Check.due("inspector(1, 2) after undo", x.inspector(1, 2), 0);
-        int[] due = {1, 2, 2, 0, 0};
-        for (int what = 0; what < due.length; what++) {
-            Check.due("inspectorOf(0, " + what + ") of a row used again", x.inspectorOf(0, what), due[what]);
-        }
+    private static void promise03NumberUsedAgain() {
+        Script.run("Adds an inspector (with the number of one that was undone)", """
+            boiler(10) | inspector(0, 3) = 0 | inspect(0, 0) = 10 | inspect(0, 0) = 10 | undo() = 3 | undo() = 2
+            undo() = 1
+            inspector(1, 2) = 0 | inspectorOf(0, 0..4) = 1 2 2 0 0
+            """);
     }
 
     private static void promise04Press() {
-        BoilerPapers x = new BoilerPapers();
-        Check.refused("press(0, 1) without boilers", x, Check.INVALID, y -> y.press(0, 1));
-        x.boiler(12);
-        Check.refused("press(0, 0)", x, Check.INVALID, y -> y.press(0, 0));
-        Check.refused("press(0, 13)", x, Check.INVALID, y -> y.press(0, 13));
-        Check.refused("press(-1, 5)", x, Check.INVALID, y -> y.press(-1, 5));
-        Check.refused("press(1, 5)", x, Check.INVALID, y -> y.press(1, 5));
-        Check.due("press(0, 1)", x.press(0, 1), 12);
-        Check.due("press(0, 12)", x.press(0, 12), 1);
-        Check.due("working pressure", x.boilerOf(0, 1), 12);
-        x.repair(0);
-        Check.due("press(0, 3) in repair", x.press(0, 3), 12);
-        Check.due("built for", x.boilerOf(0, 0), 12);
+        Script.run("Sets the working pressure of a boiler. Returns what it was", """
+            boiler(12) = 0 | boiler(30) = 1 | press(0, 0) = INVALID | press(0, 13) = INVALID | press(0, 1) = 12
+            press(0, 12) = 1 | press(1, 13) = 30 | boilerOf(0..1, 1) = 12 13 | boilerOf(0..1, 0) = 12 30
+            """);
     }
 
     private static void promise04PressUnderSteam() {
-        BoilerPapers x = new BoilerPapers();
-        x.boiler(20);
-        x.inspector(1, 1);
-        x.inspect(0, 0);
-        Check.due("press(0, 20) cold, above its paper", x.press(0, 20), 20);
-        x.press(0, 10);
-        x.fire(0);
-        Check.due("press(0, 18), that of its paper", x.press(0, 18), 10);
-        Check.refused("press(0, 19) under steam", x, Check.IMPOSSIBLE, y -> y.press(0, 19));
-        Check.refused("press(0, 21) under steam", x, Check.INVALID, y -> y.press(0, 21));
-        x.out(0);
-        Check.due("press(0, 19) when it is out", x.press(0, 19), 18);
+        Script.run("NOT_POSSIBLE if the boiler is under steam, and it is above the pressure of its paper", """
+            boiler(20) | inspector(1, 1) | inspect(0, 0) = 18 | press(0, 19) = 20 | press(0, 20) = 19
+            press(0, 10) = 20
+            fire(0) = 41 | press(0, 17) = 10 | press(0, 18) = 17 | press(0, 19) = NOT_POSSIBLE
+            press(0, 20) = NOT_POSSIBLE
+            press(0, 21) = INVALID | press(0, 0) = INVALID | press(0, 1) = 18 | press(0, 18) = 1
+            out(0) = 0 | press(0, 19) = 18 | press(0, 20) = 19
+            """);
+        Script.run("NOT_POSSIBLE if it is above the pressure of its paper (that of now)", Setups.worn(100), """
+            inspect(0, 0) = 20 | fire(0) = 33 | press(0, 20) = 1 | press(0, 21) = NOT_POSSIBLE
+            press(0, 40) = NOT_POSSIBLE
+            pass(30) = 0 | boilerOf(0, 9) = 2 | press(0, 20) = 20 | press(0, 21) = NOT_POSSIBLE
+            """);
+    }
+
+    private static void promise04PressOfOthers() {
+        Script.run("Sets the working pressure (of one in repair, and of one without a paper)", """
+            boiler(12) | press(0, 12) = 12 | press(0, 11) = 12 | repair(0) = 1 | press(0, 3) = 11 | press(0, 12) = 3
+            press(0, 13) = INVALID | pass(1) = 0 | boilerOf(0, 1) = 12
+            """);
     }
 }

@@ -141,47 +141,9 @@ public final class RandomRunsTest {
         String call = name + "(" + a + ", " + b + ", " + c + ")";
         calls.append(call).append(' ');
         boolean fine = Check.allDue();
-        Check.due(call, ask(name, a, b, c), model.call(name, a, b, c));
+        Check.due(call, new Call(name, a, b, c).on(program), model.call(name, a, b, c));
         if (fine && !Check.allDue()) {
             System.out.println("behind " + calls);
-        }
-    }
-
-    private int ask(String name, int a, int b, int c) {
-        switch (name) {
-            case "boiler": return program.boiler(a);
-            case "inspector": return program.inspector(a, b);
-            case "press": return program.press(a, b);
-            case "inspect": return program.inspect(a, b);
-            case "fire": return program.fire(a);
-            case "out": return program.out(a);
-            case "plan": return program.plan(a, b, c);
-            case "repair": return program.repair(a);
-            case "pass": return program.pass(a);
-            case "set": return program.set(a, b);
-            case "undo": return program.undo();
-            case "type": return program.type(a);
-            case "clearText": return program.clearText();
-            case "fault": return program.fault(a);
-            case "play": return program.play();
-            default: return askAbout(name, a, b, c);
-        }
-    }
-
-    private int askAbout(String name, int a, int b, int c) {
-        switch (name) {
-            case "boilerOf": return program.boilerOf(a, b);
-            case "paperOf": return program.paperOf(a, b);
-            case "inspectorOf": return program.inspectorOf(a, b);
-            case "why": return program.why(a, b);
-            case "account": return program.account(a);
-            case "would": return program.would(a, b, c);
-            case "better": return program.better(a);
-            case "first": return program.first(a);
-            case "goesOn": return program.goesOn(a);
-            case "share": return program.share(a);
-            case "count": return program.count(a);
-            default: throw new IllegalArgumentException(name);
         }
     }
 }

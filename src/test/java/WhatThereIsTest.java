@@ -2,178 +2,117 @@
 public final class WhatThereIsTest {
     public static void main(String[] args) {
         promise12BoilerOf();
+        promise12NotFound();
+        promise12Errors();
         promise13PaperOf();
         promise14InspectorOf();
-        promise15WhyNotFired();
-        promise15WhyNotInspected();
+        promise15Why();
         promise15Errors();
         promise16Account();
         Check.finish();
     }
 
-    private static BoilerPapers house(int pressure) {
-        BoilerPapers x = new BoilerPapers();
-        x.boiler(pressure);
-        x.inspector(0, 1);
-        x.inspector(1, 1);
-        return x;
-    }
-
-    private static void facts(String when, BoilerPapers x, int... due) {
-        for (int what = 0; what < due.length; what++) {
-            Check.due(when + ", boilerOf(0, " + what + ")", x.boilerOf(0, what), due[what]);
-        }
-    }
-
     private static void promise12BoilerOf() {
-        int none = Check.NONE;
-        BoilerPapers x = house(21);
-        facts("new", x, 21, 21, 0, 0, 1, none, 0, none, none, 21);
-        x.inspect(0, 0);
-        x.press(0, 20);
-        x.plan(0, 30, 5);
-        x.fire(0);
-        x.pass(7);
-        facts("under steam", x, 21, 20, 21, 1, none, none, 0, 30, 34, 18);
-        x.out(0);
-        facts("put out", x, 21, 20, 21, 0, 0, none, 0, 30, 34, 18);
-        x.set(0, 20);
-        x.pass(1);
-        x.inspect(0, 0);
-        facts("repair asked for", x, 21, 20, 21, 0, 1, none, 1, 30, 34, 18);
-        x.repair(0);
-        facts("in repair", x, 21, 20, 21, 2, none, 3, 1, 30, 34, 18);
-        x.pass(3);
-        facts("repaired", x, 21, 20, 5, 0, 0, none, 0, 30, 34, 20);
-        int[][] wrong = {{0, 10}, {0, -1}, {1, 0}, {-1, 0}, {1, 4}, {0, Integer.MAX_VALUE}, {Integer.MIN_VALUE, 0}};
-        for (int[] pair : wrong) {
-            Check.due("boilerOf(" + pair[0] + ", " + pair[1] + ")", x.boilerOf(pair[0], pair[1]), Check.INVALID);
-        }
+        Script.run("Returns something of a boiler (0 to 9, in each condition)", """
+            boiler(21) | inspector(0, 1) | boilerOf(0, 0..9) = 21 21 0 0 1 - 0 - - 21
+            inspect(0, 0) = 21 | press(0, 20) = 21 | plan(0, 30, 5) = 34
+            boilerOf(0, 0..9) = 21 20 0 0 1 - 0 30 34 21
+            fire(0) = 53 | boilerOf(0, 0..9) = 21 20 0 1 - - 0 30 34 21
+            pass(7) = 0 | boilerOf(0, 0..9) = 21 20 21 1 - - 0 30 34 18
+            out(0) = 21 | boilerOf(0, 0..9) = 21 20 21 0 0 - 0 30 34 18
+            set(0, 20) = 120 | pass(1) = 0 | inspect(0, 0) = 0 | boilerOf(0, 0..9) = 21 20 21 0 1 - 1 30 34 18
+            repair(0) = 3 | boilerOf(0, 0..9) = 21 20 21 2 - 3 1 30 34 18
+            pass(2) = 0 | boilerOf(0, 0..9) = 21 20 21 2 - 1 1 30 34 18
+            pass(1) = 0 | boilerOf(0, 0..9) = 21 20 5 0 0 - 0 30 34 20
+            """);
+    }
+
+    private static void promise12NotFound() {
+        Script.run("NOT_FOUND for 4 if it is not cold, for 5 if it is not in repair, for 7 and 8 if none is planned", """
+            boiler(10) | inspector(0, 1) | boilerOf(0, 4..5) = 1 - | boilerOf(0, 7..8) = - | inspect(0, 0) = 10
+            fire(0) = 53
+            boilerOf(0, 4..5) = - | plan(0, 1, 1) = 1 | boilerOf(0, 7..8) = 1 1 | pass(1) = 1
+            boilerOf(0, 4..5) = 0 -
+            boilerOf(0, 7..8) = 1 1 | repair(0) = 1 | boilerOf(0, 4..5) = - 1 | boilerOf(0, 7..8) = 1 1
+            pass(1) = 0 | boilerOf(0, 4..5) = 0 - | boilerOf(0, 7..8) = -
+            """);
+    }
+
+    private static void promise12Errors() {
+        Script.run("boilerOf: INVALID_ARGUMENT if an argument is out of range", """
+            boiler(10) | inspector(0, 1) | boilerOf(0, -1) = INVALID | boilerOf(0, 10) = INVALID
+            boilerOf(0, MIN) = INVALID
+            boilerOf(0, MAX) = INVALID | boilerOf(-1, 0) = INVALID | boilerOf(1, 0) = INVALID
+            boilerOf(1, 5) = INVALID
+            boilerOf(MIN, 0) = INVALID | boilerOf(MAX, 9) = INVALID | boilerOf(1, 10) = INVALID
+            boilerOf(0, 100) = INVALID
+            """);
     }
 
     private static void promise13PaperOf() {
-        BoilerPapers x = house(20);
-        for (int what = 0; what < 3; what++) {
-            Check.due("paperOf without paper", x.paperOf(0, what), Check.NONE);
-        }
-        int[][] wrong = {{0, 3}, {0, -1}, {1, 0}, {-1, 0}, {0, Integer.MIN_VALUE}, {Integer.MAX_VALUE, 0}};
-        for (int[] pair : wrong) {
-            Check.due("paperOf(" + pair[0] + ", " + pair[1] + ")", x.paperOf(pair[0], pair[1]), Check.INVALID);
-        }
-        x.pass(3);
-        x.inspect(0, 1);
-        Check.due("paperOf(0, 0)", x.paperOf(0, 0), 1);
-        Check.due("paperOf(0, 1)", x.paperOf(0, 1), 18);
-        Check.due("paperOf(0, 2)", x.paperOf(0, 2), 43);
-        for (int[] pair : wrong) {
-            Check.due("paperOf(" + pair[0] + ", " + pair[1] + ")", x.paperOf(pair[0], pair[1]), Check.INVALID);
-        }
+        Script.run("Returns something of the paper of a boiler; NOT_FOUND if it has none", """
+            boiler(20) | inspector(1, 2) | paperOf(0, 0..2) = NOT_FOUND | paperOf(0, -1) = INVALID
+            paperOf(0, 3) = INVALID
+            paperOf(1, 0) = INVALID | paperOf(-1, 0) = INVALID | paperOf(0, MIN) = INVALID
+            paperOf(MAX, 0) = INVALID
+            pass(3) = 0 | inspect(0, 0) = 18 | paperOf(0, 0..2) = 1 18 43 | paperOf(0, -1) = INVALID
+            paperOf(0, 3) = INVALID
+            paperOf(1, 0) = INVALID | paperOf(-1, 0) = INVALID | paperOf(0, MAX) = INVALID
+            paperOf(MIN, 0) = INVALID
+            press(0, 1) = 20 | fire(0) = 41 | pass(40) = 0 | paperOf(0, 0..2) = 1 18 43 | pass(1) = 1
+            paperOf(0, 0..2) = NOT_FOUND
+            """);
     }
 
     private static void promise14InspectorOf() {
-        BoilerPapers x = new BoilerPapers();
-        Check.due("inspectorOf(0, 0) of none", x.inspectorOf(0, 0), Check.INVALID);
-        x.boiler(2);
-        x.inspector(0, 3);
-        x.inspector(1, 2);
-        x.inspect(0, 1);
-        x.inspect(0, 1);
-        int[] due = {1, 2, 0, 2, 2};
-        for (int what = 0; what < 5; what++) {
-            Check.due("inspectorOf(1, " + what + ")", x.inspectorOf(1, what), due[what]);
-        }
-        x.set(1, 0);
-        x.press(0, 1);
-        x.fire(0);
-        x.pass(1);
-        x.out(0);
-        x.pass(1);
-        Check.due("left in another week", x.inspectorOf(1, 2), 2);
-        x.inspect(0, 1);
-        int[] later = {1, 2, 1, 3, 2};
-        for (int what = 0; what < 5; what++) {
-            Check.due("later inspectorOf(1, " + what + ")", x.inspectorOf(1, what), later[what]);
-        }
-        int[][] wrong = {{0, 5}, {0, -1}, {2, 0}, {-1, 0}, {0, Integer.MAX_VALUE}, {Integer.MIN_VALUE, 0}};
-        for (int[] pair : wrong) {
-            String call = "inspectorOf(" + pair[0] + ", " + pair[1] + ")";
-            Check.due(call, x.inspectorOf(pair[0], pair[1]), Check.INVALID);
-        }
+        Script.run("Returns something of an inspector", """
+            inspectorOf(0, 0) = INVALID | boiler(2) | inspector(0, 3) | inspector(1, 2)
+            inspectorOf(1, 0..4) = 1 2 2 0 0
+            inspect(0, 1) = 1 | inspectorOf(1, 0..4) = 1 2 1 1 1 | inspect(0, 1) = 1
+            inspectorOf(1, 0..4) = 1 2 0 2 2
+            inspect(0, 1) = NOT_POSSIBLE | inspectorOf(1, 0..4) = 1 2 0 2 2 | inspectorOf(0, 0..4) = 0 3 3 0 0
+            set(1, 0) = 90 | press(0, 1) = 2 | fire(0) = 41 | pass(1) = 0 | out(0) = 1 | pass(1) = 0
+            inspectorOf(1, 0..4) = 1 2 2 2 2 | inspect(0, 1) = 0 | inspectorOf(1, 0..4) = 1 2 1 3 2
+            """);
+        Script.run("inspectorOf: INVALID_ARGUMENT if an argument is out of range", """
+            inspector(0, 3) | inspector(1, 2) | inspectorOf(0, -1) = INVALID | inspectorOf(0, 5) = INVALID
+            inspectorOf(2, 0) = INVALID
+            inspectorOf(-1, 0) = INVALID | inspectorOf(0, MIN) = INVALID | inspectorOf(0, MAX) = INVALID
+            inspectorOf(MIN, 0) = INVALID | inspectorOf(MAX, 4) = INVALID | inspectorOf(2, 5) = INVALID
+            """);
     }
 
-    private static void promise15WhyNotFired() {
-        BoilerPapers x = house(10);
-        Check.due("no paper", x.why(0, -1), 5);
-        x.inspect(0, 1);
-        Check.due("above its paper", x.why(0, -1), 6);
-        x.press(0, 9);
-        Check.due("nothing against it", x.why(0, -1), 0);
-        x.plan(0, 0, 2);
-        Check.due("a shutdown", x.why(0, -1), 4);
-        x.press(0, 10);
-        Check.due("a shutdown, above its paper", x.why(0, -1), 4);
-        x.plan(0, 1, 2);
-        x.press(0, 9);
-        Check.due("a shutdown of the next week", x.why(0, -1), 0);
-        x.fire(0);
-        Check.due("under steam", x.why(0, -1), 2);
-        x.pass(1);
-        Check.due("put out by the shutdown", x.why(0, -1), 4);
-        x.pass(1);
-        x.set(0, 0);
-        Check.due("no paper by wear", x.inspect(0, 0), 0);
-        Check.due("asked for, a shutdown, no paper", x.why(0, -1), 3);
-        x.repair(0);
-        Check.due("in repair, asked for", x.why(0, -1), 1);
-    }
-
-    private static void promise15WhyNotInspected() {
-        BoilerPapers x = house(10);
-        Check.due("nothing against it", x.why(0, 0), 0);
-        x.inspect(0, 0);
-        Check.due("done this week", x.why(0, 0), 5);
-        Check.due("the other is not", x.why(0, 1), 0);
-        x.fire(0);
-        Check.due("under steam, done this week", x.why(0, 0), 2);
-        x.pass(1);
-        Check.due("under steam", x.why(0, 0), 2);
-        x.out(0);
-        Check.due("cold weeks 0", x.why(0, 0), 3);
-        x.pass(1);
-        Check.due("cold weeks 1", x.why(0, 0), 0);
-        x.set(0, 0);
-        x.inspect(0, 0);
-        Check.due("asked for, done this week", x.why(0, 0), 4);
-        Check.due("asked for", x.why(0, 1), 4);
-        x.repair(0);
-        Check.due("in repair", x.why(0, 0), 1);
-        x.pass(1);
-        Check.due("repaired, cold weeks 0", x.why(0, 0), 3);
+    private static void promise15Why() {
+        Script.run("Tells why a boiler may not be fired, or cannot be inspected. Returns the reason", """
+            boiler(10) | inspector(1, 1) | why(0, -1..0) = 5 0 | inspect(0, 0) = 9 | why(0, -1..0) = 6 5
+            press(0, 9) = 10 | why(0, -1..0) = 0 5 | plan(0, 0, 1) = 0 | why(0, -1..0) = 4 5 | pass(1) = 0
+            why(0, -1..0) = 0 0 | fire(0) = 40 | why(0, -1..0) = 2 2 | pass(1) = 0 | out(0) = 1
+            why(0, -1..0) = 0 3
+            pass(1) = 0 | why(0, -1..0) = 0 0 | set(1, 0) = 90 | inspect(0, 0) = 0 | why(0, -1..0) = 3 4
+            repair(0) = 1 | why(0, -1..0) = 1 1 | pass(1) = 0 | why(0, -1..0) = 5 3
+            """);
     }
 
     private static void promise15Errors() {
-        BoilerPapers x = house(10);
-        int[][] wrong = {{-1, -1}, {1, -1}, {1, 0}, {0, -2}, {0, 2}, {0, Integer.MIN_VALUE}, {Integer.MAX_VALUE, 0}};
-        for (int[] pair : wrong) {
-            Check.due("why(" + pair[0] + ", " + pair[1] + ")", x.why(pair[0], pair[1]), Check.INVALID);
-        }
+        Script.run("number of the inspector, or -1; INVALID_ARGUMENT if an argument is out of range", """
+            boiler(10) | why(0, -1) = 5 | why(0, 0) = INVALID | inspector(0, 1) | why(0, 0) = 0
+            why(0, 1) = INVALID
+            why(0, -2) = INVALID | why(0, MIN) = INVALID | why(0, MAX) = INVALID | why(1, -1) = INVALID
+            why(-1, -1) = INVALID
+            why(1, 0) = INVALID | why(MIN, -1) = INVALID | why(MAX, 0) = INVALID | why(-1, 1) = INVALID
+            """);
     }
 
     private static void promise16Account() {
-        BoilerPapers x = house(10);
-        x.inspect(0, 0);
-        x.set(2, 99);
-        x.inspect(0, 1);
-        x.set(3, 50);
-        x.repair(0);
-        Check.due("account(0)", x.account(0), 8);
-        Check.due("account(1)", x.account(1), 99);
-        Check.due("account(2)", x.account(2), 50);
-        Check.due("account(3)", x.account(3), -157);
-        Check.due("count(7)", x.count(7), 0);
-        int[] wrong = {-1, 4, Integer.MIN_VALUE, Integer.MAX_VALUE};
-        for (int whose : wrong) {
-            Check.due("account(" + whose + ")", x.account(whose), Check.INVALID);
-        }
+        Script.run("Returns an account: 0 and 1: the insurers; 2: the shop; 3: the owner", """
+            boiler(10) | inspector(0, 1) | inspector(1, 1) | account(0..3) = 0 | inspect(0, 0) = 10
+            account(0..3) = 8 0 0 -8
+            set(2, 99) = 8 | inspect(0, 1) = 9 | account(0..3) = 8 99 0 -107 | set(3, 50) = 15 | repair(0) = 1
+            account(0..3) = 8 99 50 -157 | count(7) = 0 | undo() = 3 | account(0..3) = 8 99 0 -107
+            """);
+        Script.run("account: INVALID_ARGUMENT if whose is out of range", """
+            account(-1) = INVALID | account(4) = INVALID | account(MIN) = INVALID | account(MAX) = INVALID
+            account(0..3) = 0
+            """);
     }
 }

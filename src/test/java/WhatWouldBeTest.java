@@ -3,323 +3,332 @@ public final class WhatWouldBeTest {
     public static void main(String[] args) {
         promise17Would();
         promise17WhateverKeepsIt();
-        promise17PressureOfOne();
-        promise18BetterByLastWeek();
-        promise18OnlyOneSuch();
+        promise17NoneGiven();
+        promise17Errors();
+        promise18LaterLastWeek();
+        promise18AtLeastTheWorkingPressure();
+        promise18OnlyOneGives();
+        promise18InAnyCondition();
         promise19First();
+        promise19OfSeveralTheLowest();
+        promise19Errors();
         promise20GoesOn();
+        promise20PaperAndShutdown();
         promise21Share();
-        promise22Sets();
+        promise21EveryStrength();
         promise22Numbers();
-        promise23UndoOfEachChange();
-        promise23FourStates();
+        promise22Sets();
+        promise22Errors();
+        promise23Undo();
+        promise23UndoOfAllThatIsKept();
         Check.finish();
     }
 
-    /** A boiler for 40 fired for some weeks at a working pressure, then put out. */
-    private static BoilerPapers worn(int weeks, int pressure) {
-        BoilerPapers x = new BoilerPapers();
-        x.boiler(40);
-        x.inspector(0, 3);
-        x.inspector(1, 3);
-        x.inspect(0, 0);
-        x.press(0, pressure);
-        x.fire(0);
-        x.pass(weeks);
-        x.out(0);
-        x.press(0, 1);
-        return x;
-    }
-
     private static void promise17Would() {
-        BoilerPapers x = worn(19, 40);
-        x.set(0, 95);
-        x.set(1, 95);
-        Check.due("wear", x.boilerOf(0, 2), 95);
-        Check.due("would(0, 0, 0)", x.would(0, 0, 0), 21);
-        Check.due("would(0, 0, 1)", x.would(0, 0, 1), 19 + 33);
-        Check.due("would(0, 1, 0)", x.would(0, 1, 0), 18);
-        Check.due("would(0, 1, 1)", x.would(0, 1, 1), 19 + 40);
-        x.set(0, 94);
-        x.set(1, 94);
-        for (int insurer = 0; insurer < 2; insurer++) {
-            Check.due("would, none given", x.would(0, insurer, 0), 0);
-            Check.due("would, none given", x.would(0, insurer, 1), Check.NONE);
-        }
-        int[][] wrong = {{1, 0, 0}, {-1, 0, 0}, {0, 2, 0}, {0, -1, 0}, {0, 0, 2}, {0, 0, -1}, {0, 2, 1},
-            {0, Integer.MAX_VALUE, 0}, {0, 0, Integer.MIN_VALUE}};
-        for (int[] three : wrong) {
-            String call = "would(" + three[0] + ", " + three[1] + ", " + three[2] + ")";
-            Check.due(call, x.would(three[0], three[1], three[2]), Check.INVALID);
-        }
+        Script.run("Tells what an inspection of a boiler by an insurer would bring now", Setups.worn(95), """
+            set(0, 95) = 120 | set(1, 95) = 90 | would(0, 0, 0..1) = 21 53 | would(0, 1, 0..1) = 18 60
+            inspect(0, 0) = 21 | paperOf(0, 0..2) = 0 21 53 | inspect(0, 1) = 18 | paperOf(0, 0..2) = 1 18 60
+            """);
+        Script.run("Tells what an inspection would bring (of a new one, for the least and the greatest pressure)", """
+            boiler(2) | boiler(40) | would(0, 0, 0..1) = 2 52 | would(0, 1, 0..1) = 1 40 | would(1, 0, 0..1) = 40 52
+            would(1, 1, 0..1) = 36 40 | pass(1) = 0 | would(1, 0, 0..1) = 40 53 | would(0, 1, 0..1) = 1 41
+            """);
     }
 
     private static void promise17WhateverKeepsIt() {
-        BoilerPapers x = worn(4, 20);
-        Check.due("with 0 cold weeks", x.would(0, 0, 0), 37);
-        x.fire(0);
-        Check.due("under steam", x.would(0, 0, 1), 4 + 50);
-        x.out(0);
-        x.pass(1);
-        x.set(0, 0);
-        x.inspect(0, 0);
-        x.set(0, 12);
-        Check.due("a repair asked for", x.would(0, 0, 0), 37);
-        x.repair(0);
-        Check.due("in repair", x.would(0, 1, 0), 33);
-        Check.due("in repair", x.would(0, 1, 1), 5 + 40);
-        Check.due("its paper is as it was", x.paperOf(0, 0), Check.NONE);
+        Script.run("whatever keeps it from being inspected", """
+            boiler(40) | inspector(0, 1) | would(0, 0, 0..1) = 40 52 | inspect(0, 0) = 40 | why(0, 0) = 5
+            would(0, 0, 0..1) = 40 52
+            press(0, 20) = 40 | fire(0) = 53 | pass(4) = 0 | why(0, 0) = 2 | would(0, 0, 0..1) = 37 54
+            would(0, 1, 0..1) = 33 44
+            out(0) = 12 | why(0, 0) = 3 | would(0, 0, 0..1) = 37 54 | pass(1) = 0 | set(0, 0) = 120
+            inspect(0, 0) = 0
+            why(0, 0) = 4 | would(0, 0, 0..1) = 0 - | would(0, 1, 0..1) = 33 45 | set(0, 12) = 0
+            would(0, 0, 0..1) = 37 55
+            repair(0) = 2 | why(0, 0) = 1 | would(0, 0, 0..1) = 37 55 | would(0, 1, 0..1) = 33 45
+            paperOf(0, 0) = NOT_FOUND
+            """);
     }
 
-    private static void promise17PressureOfOne() {
-        BoilerPapers x = new BoilerPapers();
-        x.boiler(2);
-        x.inspector(0, 1);
-        x.inspect(0, 0);
-        x.fire(0);
-        x.pass(5);
-        Check.due("would(0, 0, 0)", x.would(0, 0, 0), 1);
-        Check.due("would(0, 0, 1)", x.would(0, 0, 1), 5 + 51);
-        Check.due("would(0, 1, 0)", x.would(0, 1, 0), 0);
-        Check.due("would(0, 1, 1)", x.would(0, 1, 1), Check.NONE);
+    private static void promise17NoneGiven() {
+        Script.run("0: the pressure of the paper, 0 if none would be given; NOT_FOUND for 1 if none would be given",
+            Setups.worn(95), """
+            set(0, 94) = 120 | set(1, 95) = 90 | would(0, 0, 0..1) = 0 - | would(0, 1, 0..1) = 18 60
+            set(0, 95) = 94 | set(1, 94) = 95 | would(0, 0, 0..1) = 21 53 | would(0, 1, 0..1) = 0 -
+            """);
+        Script.run("0 if none would be given (a pressure of 1, and below)", """
+            boiler(2) | inspector(0, 1) | inspect(0, 0) = 2 | would(0, 1, 0..1) = 1 40 | fire(0) = 53 | pass(5) = 0
+            would(0, 0, 0..1) = 1 56 | would(0, 1, 0..1) = 0 -
+            """);
     }
 
-    private static void promise18BetterByLastWeek() {
-        BoilerPapers x = worn(12, 40);
-        Check.due("wear", x.boilerOf(0, 2), 60);
-        Check.due("last week of 0", x.would(0, 0, 1), 52);
-        Check.due("last week of 1", x.would(0, 1, 1), 52);
-        Check.due("the same last week: the greater pressure", x.better(0), 0);
-        BoilerPapers y = worn(13, 40);
-        Check.due("wear 65: 39 weeks and 40", y.better(0), 1);
-        y.press(0, 24);
-        Check.due("pressure 27 and 24, working 24", y.better(0), 1);
-        y.press(0, 25);
-        Check.due("pressure 27 and 24, working 25", y.better(0), 0);
-        y.press(0, 28);
-        Check.due("pressure 27 and 24, working 28", y.better(0), Check.NONE);
-        Check.due("better(1)", y.better(1), Check.INVALID);
-        Check.due("better(-1)", y.better(-1), Check.INVALID);
-        BoilerPapers z = worn(11, 40);
-        Check.due("wear 55: 41 weeks and 40", z.better(0), 0);
+    private static void promise17Errors() {
+        Script.run("would: INVALID_ARGUMENT if an argument is out of range", """
+            boiler(10) | would(0, -1, 0) = INVALID | would(0, 2, 0) = INVALID | would(0, 0, -1) = INVALID
+            would(0, 0, 2) = INVALID
+            would(0, 1, 2) = INVALID | would(1, 0, 0) = INVALID | would(-1, 0, 0) = INVALID
+            would(0, MIN, 0) = INVALID
+            would(0, MAX, 0) = INVALID | would(0, 0, MIN) = INVALID | would(0, 0, MAX) = INVALID
+            would(MIN, 0, 0) = INVALID
+            would(MAX, 0, 1) = INVALID | would(1, 2, 2) = INVALID
+            """);
     }
 
-    private static void promise18OnlyOneSuch() {
-        BoilerPapers x = worn(4, 40);
-        x.set(0, 19);
-        Check.due("wear 20, only 1 gives one", x.better(0), 1);
-        x.set(1, 19);
-        Check.due("none gives one", x.better(0), Check.NONE);
-        x.set(0, 20);
-        Check.due("only 0 gives one", x.better(0), 0);
-        x.press(0, 36);
-        Check.due("only 0 gives one, just that", x.better(0), 0);
-        x.press(0, 37);
-        Check.due("only 0 gives one, less than that", x.better(0), Check.NONE);
-        x.boiler(2);
-        Check.due("a new one", x.better(1), 0);
+    private static void promise18LaterLastWeek() {
+        String title = "of both the one whose last week is later, if they are the same the one with the greater pressure";
+        int[][] rows = {{0, 0}, {55, 0}, {59, 0}, {60, 0}, {61, 0}, {64, 0}, {65, 1}, {69, 1}, {90, 1}};
+        for (int[] row : rows) {
+            Script.run(title + " (wear " + row[0] + ")", Setups.worn(row[0]), "better(0) = " + row[1]);
+        }
+        Script.run(title + " (the last weeks)", Setups.worn(59), "would(0, 0, 1) = 57 | would(0, 1, 1) = 56");
+        Script.run(title + " (the last weeks)", Setups.worn(60), "would(0, 0, 1) = 53 | would(0, 1, 1) = 53");
+        Script.run(title + " (the last weeks)", Setups.worn(64), "would(0, 0, 1) = 57 | would(0, 1, 1) = 57");
+        Script.run(title + " (the last weeks)", Setups.worn(65), "would(0, 0, 1) = 53 | would(0, 1, 1) = 54");
+    }
+
+    private static void promise18AtLeastTheWorkingPressure() {
+        String title = "the one whose paper would have a pressure of at least the working pressure; NOT_FOUND if neither is such";
+        Script.run(title, Setups.worn(65), """
+            would(0, 0, 0) = 27 | would(0, 1, 0) = 24 | better(0) = 1 | press(0, 23) = 1 | better(0) = 1
+            press(0, 24) = 23 | better(0) = 1 | press(0, 25) = 24 | better(0) = 0 | press(0, 27) = 25
+            better(0) = 0
+            press(0, 28) = 27 | better(0) = NOT_FOUND | press(0, 40) = 28 | better(0) = NOT_FOUND
+            """);
+        Script.run(title, Setups.worn(60), """
+            would(0, 0, 0) = 28 | would(0, 1, 0) = 25 | press(0, 25) = 1 | better(0) = 0 | press(0, 26) = 25
+            better(0) = 0
+            press(0, 28) = 26 | better(0) = 0 | press(0, 29) = 28 | better(0) = NOT_FOUND
+            """);
+        Script.run(title, """
+            boiler(2) | boiler(40) | better(0) = 0 | better(1) = 0 | press(0, 1) = 2 | better(0) = 0
+            better(2) = INVALID
+            better(-1) = INVALID | better(MIN) = INVALID | better(MAX) = INVALID
+            """);
+        Script.run(title, Setups.worn(1), "press(0, 39) = 1 | better(0) = 0 | press(0, 40) = 39 | better(0) = NOT_FOUND");
+    }
+
+    private static void promise18OnlyOneGives() {
+        String title = "the one whose paper would have a pressure (of which the other gives none)";
+        Script.run(title, Setups.worn(20), """
+            better(0) = 0 | set(0, 19) = 120 | better(0) = 1 | press(0, 32) = 1 | better(0) = 1
+            press(0, 33) = 32 | better(0) = NOT_FOUND | set(0, 20) = 19 | better(0) = 0 | press(0, 32) = 33
+            set(1, 19) = 90
+            better(0) = 0 | press(0, 36) = 32 | better(0) = 0 | press(0, 37) = 36 | better(0) = NOT_FOUND
+            press(0, 1) = 37 | set(0, 19) = 20 | better(0) = NOT_FOUND
+            """);
+        Script.run(title, Setups.worn(91), "better(0) = 0 | press(0, 21) = 1 | better(0) = 0 | press(0, 22) = 21 | better(0) = -");
+        Script.run(title, Setups.worn(121), "better(0) = NOT_FOUND | set(1, 121) = 90 | better(0) = 1");
+        Script.run(title, Setups.worn(200), "set(0, 200) = 120 | set(1, 200) = 90 | better(0) = NOT_FOUND");
+        Script.run(title, Setups.worn(195), "set(0, 200) = 120 | set(1, 200) = 90 | better(0) = 0 | press(0, 2) = 1 | better(0) = -");
+    }
+
+    private static void promise18InAnyCondition() {
+        Script.run("Finds the better insurer for a boiler (under steam, in repair, with a repair asked for)", Setups.worn(65), """
+            fire(0) = 39 | better(0) = 1 | out(0) = 65 | better(0) = 1 | pass(1) = 0 | set(0, 0) = 120
+            inspect(0, 0) = 0
+            set(0, 120) = 0 | better(0) = 1 | repair(0) = 7 | better(0) = 1 | pass(7) = 0 | better(0) = 0
+            """);
     }
 
     private static void promise19First() {
-        BoilerPapers x = new BoilerPapers();
-        for (int i = 0; i < 4; i++) {
-            x.boiler(10);
-            x.press(i, 5);
-        }
-        x.inspector(0, 3);
-        x.inspector(1, 3);
-        x.inspect(0, 0);
-        x.inspect(1, 1);
-        x.inspect(2, 1);
-        x.inspect(3, 1);
-        Check.due("first(0), none under steam", x.first(0), Check.NONE);
-        Check.due("first(1), none under steam", x.first(1), Check.NONE);
-        Check.due("first(2), none under steam", x.first(2), Check.INVALID);
-        x.fire(0);
-        Check.due("first(0)", x.first(0), 0);
-        Check.due("first(1)", x.first(1), 52);
-        x.fire(3);
-        Check.due("first(0)", x.first(0), 3);
-        x.fire(2);
-        Check.due("of several the lowest", x.first(0), 2);
-        Check.due("first(1)", x.first(1), 40);
-        x.plan(0, 5, 1);
-        Check.due("a shutdown does not matter", x.first(0), 2);
-        int[] wrong = {-1, 2, Integer.MIN_VALUE, Integer.MAX_VALUE};
-        for (int what : wrong) {
-            Check.due("first(" + what + ")", x.first(what), Check.INVALID);
-        }
+        Script.run("Finds the boiler under steam whose paper runs out first", """
+            4 x boiler(10) | press(0..3, 5) = 10 | inspector(0, 3) | inspector(1, 3)
+            inspect(0, 0) = 10 | inspect(1..3, 1) = 9 | first(0..1) = NOT_FOUND
+            fire(0) = 53 | first(0..1) = 0 52 | fire(3) = 41 | first(0..1) = 3 40 | plan(0, 5, 1) = 5
+            first(0..1) = 3 40
+            out(3) = 0 | first(0..1) = 0 52 | repair(3) = 1 | first(0..1) = 0 52 | out(0) = 0
+            first(0..1) = NOT_FOUND
+            """);
+    }
+
+    private static void promise19OfSeveralTheLowest() {
+        Script.run("0: the boiler, of several the lowest; 1: its last week", """
+            8 x boiler(10) | press(0..7, 5) = 10 | 3 x inspector(0, 3) | inspect(0..2, 0) = 10
+            inspect(3..5, 1) = 10
+            inspect(6..7, 2) = 10 | fire(7) = 53 | first(0..1) = 7 52 | fire(5) = 53 | first(0..1) = 5 52
+            fire(6) = 53
+            first(0..1) = 5 52 | fire(0) = 53 | first(0..1) = 0 52 | out(0) = 0 | first(0..1) = 5 52 | pass(52) = 0
+            first(0..1) = 5 52 | pass(1) = 3 | first(0..1) = NOT_FOUND
+            """);
+        Script.run("whose paper runs out first (one week sooner, of a later boiler)", """
+            boiler(10) | boiler(10) | boiler(10) | inspector(0, 3) | pass(1) = 0 | inspect(0, 0) = 10 | fire(0) = 53
+            undo() = 3 | undo() = 2 | undo() = 1 | inspect(1, 0) = 10 | pass(1) = 0 | inspect(0, 0) = 10
+            inspect(2, 0) = 10
+            fire(0) = 53 | first(0..1) = 0 53 | fire(1) = 52 | first(0..1) = 1 52 | fire(2) = 53
+            first(0..1) = 1 52
+            """);
+    }
+
+    private static void promise19Errors() {
+        Script.run("INVALID_ARGUMENT if what is out of range; NOT_FOUND if none is under steam", """
+            first(-1) = INVALID | first(2) = INVALID | first(0..1) = NOT_FOUND | boiler(10)
+            first(0..1) = NOT_FOUND
+            inspector(0, 1) | inspect(0, 0) = 10 | first(0..1) = NOT_FOUND | fire(0) = 53 | first(-1) = INVALID
+            first(2) = INVALID | first(MIN) = INVALID | first(MAX) = INVALID | first(0..1) = 0 52
+            """);
     }
 
     private static void promise20GoesOn() {
-        BoilerPapers x = new BoilerPapers();
-        x.boiler(10);
-        x.inspector(0, 1);
-        Check.due("goesOn of a cold one", x.goesOn(0), Check.IMPOSSIBLE);
-        Check.due("goesOn(1)", x.goesOn(1), Check.INVALID);
-        Check.due("goesOn(-1)", x.goesOn(-1), Check.INVALID);
-        x.inspect(0, 0);
-        x.fire(0);
-        Check.due("by its paper", x.goesOn(0), 53);
-        x.plan(0, 52, 1);
-        Check.due("by its shutdown", x.goesOn(0), 52);
-        x.plan(0, 53, 1);
-        Check.due("by both", x.goesOn(0), 53);
-        x.plan(0, 60, 1);
-        Check.due("the paper comes first", x.goesOn(0), 53);
-        x.pass(50);
-        Check.due("50 weeks later", x.goesOn(0), 3);
-        x.plan(0, 52, 3);
-        Check.due("50 weeks later by its shutdown", x.goesOn(0), 2);
-        x.plan(0, 53, 3);
-        x.pass(2);
-        Check.due("the last week", x.goesOn(0), 1);
-        x.pass(1);
-        Check.due("goesOn when it is out", x.goesOn(0), Check.IMPOSSIBLE);
-        x.repair(0);
-        Check.due("goesOn in repair", x.goesOn(0), Check.IMPOSSIBLE);
+        Script.run("Tells how many weeks a boiler under steam could go on: until it is put out", """
+            boiler(10) | inspector(0, 1) | goesOn(0) = NOT_POSSIBLE | goesOn(1) = INVALID | goesOn(-1) = INVALID
+            goesOn(MIN) = INVALID | goesOn(MAX) = INVALID | inspect(0, 0) = 10 | goesOn(0) = NOT_POSSIBLE
+            fire(0) = 53
+            goesOn(0) = 53 | pass(52) = 0 | goesOn(0) = 1 | pass(1) = 1 | goesOn(0) = NOT_POSSIBLE | repair(0) = 11
+            goesOn(0) = NOT_POSSIBLE
+            """);
+        Script.run("until it is put out (fired in the last week of its paper; put out by the owner)", """
+            boiler(10) | inspector(0, 1) | inspect(0, 0) = 10 | pass(52) = 0 | fire(0) = 1 | goesOn(0) = 1
+            out(0) = 0
+            goesOn(0) = NOT_POSSIBLE | fire(0) = 1 | plan(0, 60, 1) = 60 | goesOn(0) = 1
+            """);
+    }
+
+    private static void promise20PaperAndShutdown() {
+        int[][] rows = {{1, 1}, {2, 2}, {51, 51}, {52, 52}, {53, 53}, {54, 53}, {9999, 53}};
+        for (int[] row : rows) {
+            int weeks = row[1];
+            String before = weeks == 1 ? "" : "pass(" + (weeks - 1) + ") = 0 | goesOn(0) = 1 | ";
+            Script.run("until it is put out (a paper to week 52, a shutdown in week " + row[0] + ")",
+                "boiler(10) | inspector(0, 1) | inspect(0, 0) = 10 | fire(0) = 53 | plan(0, " + row[0] + ", 1) = " + row[0]
+                + " | goesOn(0) = " + weeks + " | " + before + "boilerOf(0, 3) = 1 | pass(1) = 1 | boilerOf(0, 3) = 0");
+        }
+        Script.run("until it is put out (some weeks later)", """
+            boiler(10) | inspector(0, 1) | inspect(0, 0) = 10 | fire(0) = 53 | pass(50) = 0 | goesOn(0) = 3
+            plan(0, 52, 3) = 54
+            goesOn(0) = 2 | plan(0, 51, 3) = 53 | goesOn(0) = 1 | plan(0, 53, 3) = 55 | goesOn(0) = 3
+            plan(0, 54, 1) = 54 | goesOn(0) = 3
+            """);
     }
 
     private static void promise21Share() {
-        for (int built = 2; built <= 40; built++) {
-            BoilerPapers x = new BoilerPapers();
-            x.inspector(0, 1);
-            x.boiler(built);
-            x.inspect(0, 0);
-            x.fire(0);
-            for (int week = 0; week < 53; week++) {
-                float due = (float) x.boilerOf(0, 9) / (float) built;
-                Check.due("share of " + built, x.share(0), Float.floatToIntBits(due));
-                x.pass(1);
-            }
+        Script.run("as a float: its strength, as a float, divided by what it is built for, as a float", """
+            share(0) = INVALID | boiler(2) | boiler(40) | share(0) = 1065353216 | share(1) = 1065353216
+            share(2) = INVALID
+            share(-1) = INVALID | share(MIN) = INVALID | share(MAX) = INVALID
+            """);
+        int[][] rows = {{1, 39}, {100, 20}, {150, 10}, {180, 4}, {195, 1}, {196, 0}, {200, 0}};
+        for (int[] row : rows) {
+            Script.run("Returns the bits of the float (wear " + row[0] + ")", Setups.worn(row[0]),
+                "boilerOf(0, 9) = " + row[1] + " | share(0) = " + Float.floatToRawIntBits((float) row[1] / (float) 40));
         }
-        BoilerPapers y = new BoilerPapers();
-        Check.due("share(0)", y.share(0), Check.INVALID);
-        y.boiler(2);
-        Check.due("share(-1)", y.share(-1), Check.INVALID);
-        Check.due("share of a new one", y.share(0), 0x3f800000);
     }
 
-    private static void promise22Sets() {
-        BoilerPapers x = new BoilerPapers();
-        for (int i = 0; i < 8; i++) {
-            x.boiler(10);
+    /** Each boiler is fired until nothing of its strength is left. */
+    private static void promise21EveryStrength() {
+        for (int built = 2; built <= 40; built++) {
+            BoilerPapers x = new BoilerPapers();
+            x.boiler(built);
+            x.inspector(0, 1);
+            x.set(0, 200);
+            int growth = 1 + built / 10;
+            int wear = 0;
+            int calls = 3;
+            while (built * (200 - wear) / 200 > 0) {
+                x.inspect(0, 0);
+                x.press(0, built * (200 - wear) / 200);
+                x.fire(0);
+                x.press(0, built);
+                growth = 1 + x.boilerOf(0, 1) / 10;
+                calls += 7;
+                for (int weeks = x.goesOn(0); weeks > 1 && built * (200 - wear) / 200 > 0; weeks--) {
+                    x.pass(1);
+                    wear = Math.min(200, wear + growth);
+                    int strength = built * (200 - wear) / 200;
+                    int due = Float.floatToRawIntBits((float) strength / (float) built);
+                    Check.due("share of strength " + strength + " of " + built, x.share(0), due);
+                    calls += 2;
+                }
+                x.out(0);
+                x.pass(1);
+                calls += 2;
+            }
+            Check.due("share of strength 0 of " + built, x.share(0), 0);
+            Check.due("calls of an object beyond " + Traces.MOST_CALLS, Math.max(Traces.MOST_CALLS, calls), Traces.MOST_CALLS);
         }
-        x.inspector(0, 3);
-        x.inspector(0, 3);
-        x.inspect(7, 0);
-        x.inspect(5, 0);
-        x.inspect(2, 0);
-        x.inspect(0, 1);
-        x.fire(7);
-        x.fire(0);
-        x.repair(3);
-        x.repair(5);
-        Check.due("count(3)", x.count(3), 129);
-        Check.due("count(4)", x.count(4), 40);
-        Check.due("count(5)", x.count(5), 0);
-        Check.due("count(6)", x.count(6), 165);
-        Check.due("count(12)", x.count(12), 4);
-        x.pass(1);
-        x.out(7);
-        x.pass(1);
-        x.set(0, 0);
-        x.inspect(7, 0);
-        Check.due("count(5)", x.count(5), 128);
-        Check.due("count(4)", x.count(4), 0);
-        Check.due("count(6)", x.count(6), 5);
-        x.repair(7);
-        Check.due("count(5) in repair", x.count(5), 128);
     }
 
     private static void promise22Numbers() {
-        BoilerPapers x = worn(20, 40);
-        Check.due("count(0)", x.count(0), 1);
-        Check.due("count(1)", x.count(1), 2);
-        Check.due("count(2)", x.count(2), 20);
-        x.pass(1);
-        x.inspect(0, 0);
-        x.inspect(0, 1);
-        x.repair(0);
-        Check.due("count(7)", x.count(7), 0);
-        Check.due("count(8)", x.count(8), 3);
-        Check.due("count(9)", x.count(9), 2);
-        Check.due("count(10)", x.count(10), 0);
-        Check.due("count(11)", x.count(11), 11);
-        Check.due("count(13)", x.count(13), 4);
-        Check.write(x, "abc");
-        Check.due("count(14)", x.count(14), 3);
-        int[] settings = {5, 6, 7, 8};
-        for (int what = 0; what < 4; what++) {
-            x.set(what, settings[what]);
-            Check.due("count of a setting", x.count(20 + what), settings[what]);
-        }
-        int[] wrong = {-1, 15, 16, 17, 18, 19, 24, Integer.MIN_VALUE, Integer.MAX_VALUE};
-        for (int what : wrong) {
-            Check.due("count(" + what + ")", x.count(what), Check.INVALID);
-        }
+        Script.run("Returns a number (0 to 14, 20 to 23)", Setups.worn(100), """
+            count(0..2) = 1 2 21 | count(7..11) = 0 1 1 0 0 | count(13..14) = 4 0 | inspect(0, 0) = 20
+            inspect(0, 1) = 0
+            count(3..12) = 0 0 1 0 0 3 2 0 0 0 | repair(0) = 11 | count(3..12) = 0 1 1 0 0 3 2 0 11 0
+            type(98) = 1 | type(57) = 2 | count(13..14) = 4 2 | pass(11) = 0
+            count(2..12) = 32 0 0 0 0 0 3 2 0 11 0
+            set(0, 5) = 120 | set(1, 6) = 90 | set(2, 7) = 8 | set(3, 9) = 15 | count(20..23) = 5 6 7 9
+            """);
+        Script.run("10: boilers that were put out by a week so far (not those by the call of out)", """
+            boiler(10) | inspector(0, 1) | inspect(0, 0) = 10 | fire(0) = 53 | out(0) = 0 | count(10) = 0
+            fire(0) = 53
+            plan(0, 1, 1) = 1 | pass(1) = 1 | count(10) = 1 | pass(1) = 0 | fire(0) = 51 | pass(60) = 1
+            count(10) = 2
+            undo() = 3 | count(10) = 1
+            """);
+        Script.run("11: weeks of repairs that were paid so far (also for nothing, and before they pass)", Setups.worn(39), """
+            set(3, 0) = 15 | repair(0) = 4 | count(11) = 4 | pass(4) = 0 | count(11) = 4 | repair(0) = 1
+            count(11) = 5
+            """);
+        Script.run("13: states in the history; 14: the length of the text", """
+            count(13..14) = 0 | type(32) = 1 | count(13..14) = 0 1 | 5 x boiler(10) | count(13..14) = 4 1
+            undo() = 3
+            count(13..14) = 3 1 | 59 x type(126) | count(13..14) = 3 60 | clearText() = 60 | count(13..14) = 3 0
+            """);
     }
 
-    private static void undone(String change, BoilerPapers x, Check.Call made) {
-        String before = Check.all(x);
-        int states = x.count(13);
-        made.on(x);
-        Check.due("states after " + change, x.count(13), states + 1);
-        Check.due("undo of " + change, x.undo(), states);
-        Check.same("what was before " + change, Check.all(x), before);
+    private static void promise22Sets() {
+        Script.run("3: boilers under steam; 4: in repair; 5: a repair is asked; 6: with a paper; 12: may be fired", """
+            8 x boiler(10) | inspector(0, 3) | inspector(0, 3) | inspect(7, 0) = 10 | inspect(5, 0) = 10
+            inspect(2, 0) = 10
+            inspect(0, 1) = 10 | fire(7) = 53 | fire(0) = 53 | repair(3) = 1 | repair(5) = 1
+            count(3..6) = 129 40 0 165 | count(12) = 4 | plan(2, 0, 1) = 0 | count(12) = 0 | pass(1) = 0
+            count(3..6) = 129 0 0 133 | count(12) = 4 | out(7) = 2 | count(12) = 132 | pass(1) = 0 | set(0, 0) = 120
+            inspect(7, 0) = 0 | count(3..6) = 1 0 128 5 | count(12) = 4 | repair(7) = 1 | count(3..6) = 1 128 128 5
+            inspect(2, 0) = 10 | press(2, 9) = 10 | count(12) = 4 | pass(1) = 0 | count(3..6) = 1 0 0 5
+            """);
+        Script.run("6: boilers with a paper; 12: boilers that may be fired now (the edge of the pressure)", """
+            8 x boiler(10) | 3 x inspector(1, 3) | inspect(0..2, 0) = 9 | inspect(3..5, 1) = 9
+            inspect(6..7, 2) = 9
+            count(6) = 255 | count(12) = 0 | press(7, 9) = 10 | count(12) = 128 | press(0, 9) = 10 | count(12) = 129
+            press(3, 8) = 10 | count(12) = 137
+            """);
     }
 
-    private static void promise23UndoOfEachChange() {
-        BoilerPapers x = worn(20, 40);
-        x.pass(1);
-        x.undo();
-        x.undo();
-        undone("press", x, y -> y.press(0, 3));
-        undone("press as it was", x, y -> y.press(0, y.boilerOf(0, 1)));
-        undone("boiler", x, y -> y.boiler(5));
-        undone("inspector", x, y -> y.inspector(1, 2));
-        undone("plan", x, y -> y.plan(0, 30, 2));
-        undone("repair", x, y -> y.repair(0));
-        undone("fire", x, y -> y.fire(0));
-        undone("pass", x, y -> y.pass(60));
-        for (int what = 0; what < 4; what++) {
-            final int w = what;
-            undone("set", x, y -> y.set(w, 33));
-        }
-        x.undo();
-        undone("out", x, y -> y.out(0));
-        Check.write(x, "o0;w1;i0,1;r0;b9;");
-        undone("play", x, BoilerPapers::play);
-        Check.due("the text stays", x.count(14), 17);
-        Check.write(x, "o0;w1;");
-        x.play();
-        undone("inspect without paper", x, y -> y.inspect(0, 1));
-        undone("inspect", x, y -> y.inspect(0, 0));
+    private static void promise22Errors() {
+        Script.run("count: INVALID_ARGUMENT if what is out of range", Setups.HOUSE, """
+            count(-1) = INVALID | count(15..19) = INVALID | count(24) = INVALID | count(25) = INVALID
+            count(-20) = INVALID
+            count(MIN) = INVALID | count(MAX) = INVALID | count(14) = 0 | count(20) = 120 | count(23) = 15
+            """);
     }
 
-    private static void promise23FourStates() {
-        BoilerPapers x = new BoilerPapers();
-        for (int i = 1; i <= 7; i++) {
-            x.set(2, i);
-            Check.due("states", x.count(13), Math.min(i, 4));
-        }
-        x.fire(0);
-        x.type('b');
-        x.clearText();
-        Check.due("an error or a text is no change", x.count(13), 4);
-        for (int i = 3; i >= 0; i--) {
-            Check.due("undo()", x.undo(), i);
-            Check.due("setting 2", x.count(22), 3 + i);
-        }
-        Check.due("undo() of none", x.undo(), Check.IMPOSSIBLE);
-        Check.due("setting 2", x.count(22), 3);
-        x.set(2, 50);
-        x.set(2, 51);
-        Check.due("undo()", x.undo(), 1);
-        x.set(2, 52);
-        Check.due("undo()", x.undo(), 1);
-        Check.due("setting 2", x.count(22), 50);
-        Check.due("undo()", x.undo(), 0);
-        Check.due("setting 2", x.count(22), 3);
+    private static void promise23Undo() {
+        Script.run("Restores the latest state of the history, which is removed from it", """
+            undo() = NOT_POSSIBLE | boiler(10) = 0 | boiler(11) = 1 | undo() = 1 | count(0) = 1
+            boilerOf(0, 0) = 10
+            undo() = 0 | count(0) = 0 | undo() = NOT_POSSIBLE
+            boiler(12) = 0 | boilerOf(0, 0) = 12 | count(13) = 1 | undo() = 0 | undo() = NOT_POSSIBLE
+            count(13) = 0
+            """);
+        Script.run("Returns the number of states that are left in the history; NOT_POSSIBLE if it is empty", """
+            6 x set(2, 5) | undo() = 3 | undo() = 2 | undo() = 1 | undo() = 0 | undo() = NOT_POSSIBLE
+            undo() = NOT_POSSIBLE
+            set(2, 6) = 5 | undo() = 0 | undo() = NOT_POSSIBLE
+            """);
+    }
+
+    private static void promise23UndoOfAllThatIsKept() {
+        Script.run("Restores the latest state (of a week in which much happens)", """
+            4 x boiler(40) | inspector(0, 3) | inspector(1, 3) | press(0..3, 9) = 40 | inspect(0..1, 0) = 40
+            inspect(2..3, 1) = 36
+            fire(0..2) = 53 53 41 | plan(0, 41, 3) = 43 | pass(40) = 0 | repair(3) = 1
+            inspect(3, 0) = NOT_POSSIBLE
+            boilerOf(0..3, 3) = 1 1 1 2 | paperOf(0..3, 2) = 52 52 40 40 | pass(1) = 2 | boilerOf(0..3, 3) = 0 1 0 0
+            paperOf(0..3, 2) = 52 52 - - | boilerOf(0..3, 2) = 41 41 41 0 | count(10) = 2
+            boilerOf(0, 7..8) = 41 43
+            undo() = 3 | boilerOf(0..3, 3) = 1 1 1 2 | boilerOf(0..3, 2) = 40 40 40 0
+            paperOf(0..3, 2) = 52 52 40 40
+            count(10) = 0 | count(2) = 40 | boilerOf(3, 5) = 1 | undo() = 2 | boilerOf(3, 3..4) = 0 41
+            pass(4) = 2 | count(10) = 2 | boilerOf(0..3, 4) = 3 - 3 45 | boilerOf(0, 7) = NOT_FOUND | undo() = 2
+            boilerOf(0, 7) = 41
+            """);
     }
 }

@@ -2,405 +2,176 @@
 public final class WorkTest {
     public static void main(String[] args) {
         promise05Inspect();
-        promise05NoPaper();
-        promise05PressureBelowOne();
-        promise05Errors();
+        promise05NotPossible();
         promise06Fire();
-        promise06ReasonsAgainst();
+        promise06NotPossible();
         promise07Out();
+        promise07NotPossible();
         promise08Plan();
-        promise08PlanErrors();
+        promise08From();
+        promise08Weeks();
+        promise08UnderSteam();
         promise09Repair();
-        promise10WearAndColdWeeks();
-        promise10PapersRunOut();
-        promise10Shutdowns();
-        promise10RepairEnds();
-        promise10RepairEndsBeforePutOut();
-        promise10Limits();
+        promise10Pass();
+        promise10Weeks();
         promise11Set();
         Check.finish();
     }
 
-    /** Boiler 0 for the pressure, inspectors 0 and 1 of the insurers 0 and 1, three inspections each. */
-    private static BoilerPapers house(int pressure) {
-        BoilerPapers x = new BoilerPapers();
-        x.boiler(pressure);
-        x.inspector(0, 3);
-        x.inspector(1, 3);
-        return x;
-    }
-
-    /** A house whose boiler, for 40, has 20 weeks at 5 a week behind it: wear 100, out, cold weeks 0. */
-    private static BoilerPapers worn() {
-        BoilerPapers x = house(40);
-        x.inspect(0, 0);
-        x.fire(0);
-        x.pass(20);
-        x.out(0);
-        return x;
-    }
-
     private static void promise05Inspect() {
-        BoilerPapers x = house(37);
-        Check.due("inspect by insurer 1", x.inspect(0, 1), 33);
-        Check.due("paper's insurer", x.paperOf(0, 0), 1);
-        Check.due("paper's pressure", x.paperOf(0, 1), 33);
-        Check.due("paper's last week", x.paperOf(0, 2), 40);
-        Check.due("inspect by insurer 0", x.inspect(0, 0), 37);
-        Check.due("paper's insurer", x.paperOf(0, 0), 0);
-        Check.due("paper's last week", x.paperOf(0, 2), 52);
-        Check.due("account(0)", x.account(0), 8);
-        Check.due("account(1)", x.account(1), 8);
-        Check.due("account(3)", x.account(3), -16);
-        Check.due("left of inspector 0", x.inspectorOf(0, 2), 2);
-        BoilerPapers y = worn();
-        Check.due("wear", y.boilerOf(0, 2), 100);
-        y.pass(1);
-        Check.due("inspect with wear 100", y.inspect(0, 0), 20);
-        Check.due("its last week, 21 + 52 - 20", y.paperOf(0, 2), 53);
-        y.set(1, 100);
-        Check.due("inspect with wear 100 by insurer 1", y.inspect(0, 1), 18);
-        Check.due("its last week, 21 + 40", y.paperOf(0, 2), 61);
+        Script.run("Returns the pressure of the paper, 0 if none is given", """
+            boiler(37) | inspector(0, 3) | inspector(1, 3)
+            inspect(0, 1) = 33 | paperOf(0, 0..2) = 1 33 40 | inspect(0, 0) = 37 | paperOf(0, 0..2) = 0 37 52
+            account(0..3) = 8 8 0 -16 | inspectorOf(0..1, 2) = 2 | inspectorOf(0..1, 3) = 1
+            inspectorOf(0..1, 4) = 1
+            boilerOf(0, 0..9) = 37 37 0 0 1 - 0 - - 37
+            """);
+        Script.run("Returns 0 if none is given", Setups.worn(100), """
+            set(2, 5) = 8 | set(0, 99) = 120 | inspect(0, 0) = 0 | paperOf(0, 0..2) = NOT_FOUND | boilerOf(0, 6) = 1
+            inspectorOf(0, 2..4) = 2 2 1 | account(0..3) = 13 0 0 -13 | undo() = 3
+            set(0, 100) = 99 | inspect(0, 0) = 20 | paperOf(0, 0..2) = 0 20 53 | boilerOf(0, 6) = 0
+            inspectorOf(0, 2..4) = 2 2 2 | account(0..3) = 13 0 0 -13
+            """);
     }
 
-    private static void promise05NoPaper() {
-        BoilerPapers x = worn();
-        x.pass(1);
-        x.set(2, 5);
-        Check.due("paper from before", x.paperOf(0, 1), 40);
-        Check.due("inspect, wear 100 above 90", x.inspect(0, 1), 0);
-        Check.due("paper is gone", x.paperOf(0, 0), Check.NONE);
-        Check.due("repair is asked for", x.boilerOf(0, 6), 1);
-        Check.due("inspections", x.inspectorOf(1, 3), 1);
-        Check.due("papers", x.inspectorOf(1, 4), 0);
-        Check.due("left", x.inspectorOf(1, 2), 2);
-        Check.due("account(1)", x.account(1), 5);
-        Check.refused("inspect, a repair asked for", x, Check.IMPOSSIBLE, y -> y.inspect(0, 0));
-        BoilerPapers z = worn();
-        z.pass(1);
-        z.set(0, 99);
-        Check.due("inspect, wear 100 above 99", z.inspect(0, 0), 0);
-        z.undo();
-        z.set(0, 100);
-        Check.due("inspect, wear 100 as setting 0", z.inspect(0, 0), 20);
-    }
-
-    private static void promise05PressureBelowOne() {
-        BoilerPapers x = house(2);
-        x.press(0, 1);
-        x.inspect(0, 1);
-        Check.due("fire(0)", x.fire(0), 41);
-        x.pass(1);
-        x.out(0);
-        x.pass(1);
-        Check.due("wear", x.boilerOf(0, 2), 1);
-        Check.due("strength", x.boilerOf(0, 9), 1);
-        Check.due("inspect by insurer 1: 1 * 9 / 10", x.inspect(0, 1), 0);
-        Check.due("repair is asked for", x.boilerOf(0, 6), 1);
-        x.undo();
-        Check.due("inspect by insurer 0", x.inspect(0, 0), 1);
-    }
-
-    private static void promise05Errors() {
-        BoilerPapers x = house(10);
-        x.inspector(0, 1);
-        x.boiler(10);
-        int[][] wrong = {{-1, 0}, {2, 0}, {0, -1}, {0, 3}, {Integer.MIN_VALUE, 0}, {0, Integer.MAX_VALUE}};
-        for (int[] pair : wrong) {
-            String call = "inspect(" + pair[0] + ", " + pair[1] + ")";
-            Check.refused(call, x, Check.INVALID, y -> y.inspect(pair[0], pair[1]));
-        }
-        Check.due("inspect(0, 2)", x.inspect(0, 2), 10);
-        Check.refused("inspect(1, 2), none left", x, Check.IMPOSSIBLE, y -> y.inspect(1, 2));
-        x.pass(1);
-        Check.due("inspect(1, 2) in the next week", x.inspect(1, 2), 10);
-        x.fire(0);
-        Check.refused("inspect under steam", x, Check.IMPOSSIBLE, y -> y.inspect(0, 0));
-        Check.refused("inspect under steam by none", x, Check.INVALID, y -> y.inspect(0, 3));
-        x.out(0);
-        Check.refused("inspect with 0 cold weeks", x, Check.IMPOSSIBLE, y -> y.inspect(0, 0));
-        x.repair(0);
-        Check.refused("inspect in repair", x, Check.IMPOSSIBLE, y -> y.inspect(0, 0));
+    private static void promise05NotPossible() {
+        Script.run("INVALID_ARGUMENT; NOT_POSSIBLE if it cannot be inspected (each of the reasons)", """
+            boiler(10) | boiler(10) | inspector(0, 1) | inspector(0, 3)
+            inspect(2, 0) = INVALID | inspect(-1, 0) = INVALID | inspect(0, 2) = INVALID | inspect(0, -1) = INVALID
+            inspect(MIN, MAX) = INVALID | inspect(0, 0) = 10 | why(1, 0) = 5 | inspect(1, 0) = NOT_POSSIBLE
+            fire(0) = 53 | why(0, 1) = 2 | inspect(0, 1) = NOT_POSSIBLE | pass(1) = 0 | out(0) = 2
+            why(0, 1) = 3 | inspect(0, 1) = NOT_POSSIBLE | pass(1) = 0 | set(0, 1) = 120
+            inspect(0, 1) = 0 | why(0, 1) = 4 | inspect(0, 1) = NOT_POSSIBLE | repair(0) = 1
+            why(0, 1) = 1 | inspect(0, 1) = NOT_POSSIBLE | inspect(0, 2) = INVALID
+            """);
     }
 
     private static void promise06Fire() {
-        BoilerPapers x = house(10);
-        Check.refused("fire(-1)", x, Check.INVALID, y -> y.fire(-1));
-        Check.refused("fire(1)", x, Check.INVALID, y -> y.fire(1));
-        Check.refused("fire without paper", x, Check.IMPOSSIBLE, y -> y.fire(0));
-        x.inspect(0, 0);
-        x.pass(52);
-        Check.due("fire in the last week of its paper", x.fire(0), 1);
-        Check.due("it is under steam", x.boilerOf(0, 3), 1);
-        Check.refused("fire again", x, Check.IMPOSSIBLE, y -> y.fire(0));
-        x.undo();
-        x.pass(1);
-        Check.refused("fire a week later", x, Check.IMPOSSIBLE, y -> y.fire(0));
+        Script.run("Fires a boiler: it is under steam then. Returns for how many weeks its paper holds, that of now too", """
+            boiler(10) | inspector(0, 1) | inspect(0, 0) = 10
+            fire(0) = 53 | boilerOf(0, 3) = 1 | count(3) = 1 | undo() = 3
+            pass(1) = 0 | fire(0) = 52 | undo() = 3 | pass(50) = 0 | fire(0) = 2 | undo() = 3 | pass(1) = 0
+            fire(0) = 1
+            undo() = 3 | pass(1) = 0 | fire(0) = NOT_POSSIBLE
+            """);
+        Script.run("Returns for how many weeks its paper holds (that of insurer 1)", """
+            boiler(10) | inspector(1, 1) | inspect(0, 0) = 9 | press(0, 9) = 10 | fire(0) = 41 | out(0) = 0
+            pass(40) = 0
+            fire(0) = 1 | boilerOf(0, 0..9) = 10 9 0 1 - - 0 - - 10
+            """);
     }
 
-    private static void promise06ReasonsAgainst() {
-        BoilerPapers x = house(10);
-        x.inspect(0, 1);
-        Check.refused("fire, 10 above 9", x, Check.IMPOSSIBLE, y -> y.fire(0));
-        x.press(0, 9);
-        x.plan(0, 0, 1);
-        Check.refused("fire in a shutdown", x, Check.IMPOSSIBLE, y -> y.fire(0));
-        x.plan(0, 1, 1);
-        Check.due("fire ahead of a shutdown", x.fire(0), 41);
-        x.out(0);
-        Check.due("fire with 0 cold weeks", x.fire(0), 41);
-        x.out(0);
-        x.repair(0);
-        Check.refused("fire in repair", x, Check.IMPOSSIBLE, y -> y.fire(0));
+    private static void promise06NotPossible() {
+        Script.run("INVALID_ARGUMENT; NOT_POSSIBLE if it may not be fired (each of the reasons)", """
+            boiler(10) | inspector(1, 3) | fire(1) = INVALID | fire(-1) = INVALID | fire(MIN) = INVALID
+            fire(MAX) = INVALID
+            why(0, -1) = 5 | fire(0) = NOT_POSSIBLE | inspect(0, 0) = 9 | why(0, -1) = 6 | fire(0) = NOT_POSSIBLE
+            press(0, 9) = 10 | plan(0, 0, 1) = 0 | why(0, -1) = 4 | fire(0) = NOT_POSSIBLE
+            pass(1) = 0 | fire(0) = 40 | why(0, -1) = 2 | fire(0) = NOT_POSSIBLE | pass(1) = 0 | out(0) = 1
+            pass(1) = 0
+            set(1, 0) = 90 | inspect(0, 0) = 0 | why(0, -1) = 3 | fire(0) = NOT_POSSIBLE
+            repair(0) = 1 | why(0, -1) = 1 | fire(0) = NOT_POSSIBLE
+            """);
     }
 
     private static void promise07Out() {
-        BoilerPapers x = house(30);
-        Check.refused("out(0) of a cold one", x, Check.IMPOSSIBLE, y -> y.out(0));
-        Check.refused("out(1)", x, Check.INVALID, y -> y.out(1));
-        Check.refused("out(-1)", x, Check.INVALID, y -> y.out(-1));
-        x.inspect(0, 0);
-        x.fire(0);
-        x.pass(3);
-        Check.due("out(0)", x.out(0), 12);
-        Check.due("it is cold", x.boilerOf(0, 3), 0);
-        Check.due("its cold weeks", x.boilerOf(0, 4), 0);
-        Check.due("its paper stays", x.paperOf(0, 2), 52);
-        Check.due("put out by weeks", x.count(10), 0);
-        x.repair(0);
-        Check.refused("out(0) in repair", x, Check.IMPOSSIBLE, y -> y.out(0));
+        Script.run("Puts a boiler out: it is cold then, with 0 cold weeks. Returns its wear", """
+            boiler(30) | inspector(0, 1) | inspect(0, 0) = 30 | fire(0) = 53 | out(0) = 0 | boilerOf(0, 3..4) = 0 0
+            fire(0) = 53 | pass(3) = 0 | out(0) = 12 | boilerOf(0, 3..4) = 0 0 | paperOf(0, 0..2) = 0 30 52
+            count(10) = 0 | count(3) = 0 | pass(1) = 0 | boilerOf(0, 4) = 1
+            """);
+    }
+
+    private static void promise07NotPossible() {
+        Script.run("INVALID_ARGUMENT; NOT_POSSIBLE if it is not under steam", """
+            boiler(30) | inspector(0, 1) | out(0) = NOT_POSSIBLE | out(1) = INVALID | out(-1) = INVALID
+            out(MIN) = INVALID
+            out(MAX) = INVALID | inspect(0, 0) = 30 | out(0) = NOT_POSSIBLE | fire(0) = 53 | out(0) = 0
+            out(0) = NOT_POSSIBLE
+            repair(0) = 1 | out(0) = NOT_POSSIBLE | pass(1) = 0 | out(0) = NOT_POSSIBLE
+            """);
     }
 
     private static void promise08Plan() {
-        BoilerPapers x = house(10);
-        Check.due("plan(0, 3, 20)", x.plan(0, 3, 20), 22);
-        Check.due("first week", x.boilerOf(0, 7), 3);
-        Check.due("last week", x.boilerOf(0, 8), 22);
-        Check.due("plan in its place", x.plan(0, 9999, 20), 10018);
-        Check.due("first week", x.boilerOf(0, 7), 9999);
-        Check.due("last week", x.boilerOf(0, 8), 10018);
-        x.pass(5);
-        Check.due("plan(0, 5, 1) of a cold one", x.plan(0, 5, 1), 5);
-        x.repair(0);
-        Check.due("plan(0, 5, 2) in repair", x.plan(0, 5, 2), 6);
+        Script.run("Plans a shutdown of a boiler, in place of the one that there was. Returns the last week", """
+            boiler(10) | boiler(10) | plan(0, 0, 1) = 0 | boilerOf(0, 7..8) = 0 0 | plan(0, 3, 20) = 22
+            boilerOf(0, 7..8) = 3 22 | plan(0, 9999, 20) = 10018 | boilerOf(0, 7..8) = 9999 10018
+            plan(1, 2, 2) = 3 | boilerOf(1, 7..8) = 2 3 | boilerOf(0, 7..8) = 9999 10018
+            """);
     }
 
-    private static void promise08PlanErrors() {
-        BoilerPapers x = house(10);
-        x.inspect(0, 0);
-        x.pass(2);
-        x.fire(0);
-        int[][] wrong = {{-1, 3, 1}, {1, 3, 1}, {0, 1, 1}, {0, 10000, 1}, {0, 3, 0}, {0, 3, 21},
-            {0, -1, 1}, {0, 2, 21}, {0, Integer.MAX_VALUE, 1}, {0, 2, Integer.MIN_VALUE}};
-        for (int[] three : wrong) {
-            String call = "plan(" + three[0] + ", " + three[1] + ", " + three[2] + ")";
-            Check.refused(call, x, Check.INVALID, y -> y.plan(three[0], three[1], three[2]));
-        }
-        Check.refused("plan for now under steam", x, Check.IMPOSSIBLE, y -> y.plan(0, 2, 1));
-        Check.due("plan for the next week", x.plan(0, 3, 1), 3);
+    private static void promise08From() {
+        Script.run("from: the first week, that of now or later, 9999 at most", """
+            boiler(10) | plan(0, -1, 1) = INVALID | plan(0, MIN, 1) = INVALID | plan(0, MAX, 1) = INVALID
+            plan(0, MAX, 20) = INVALID
+            plan(0, 0, 1) = 0 | plan(0, 9999, 1) = 9999 | plan(0, 10000, 1) = INVALID | plan(0, 9998, 2) = 9999
+            pass(5) = 0 | plan(0, 4, 1) = INVALID | plan(0, 4, 20) = INVALID | plan(0, 5, 1) = 5 | plan(0, 6, 1) = 6
+            plan(0, 0, 20) = INVALID | plan(-1, 6, 1) = INVALID | plan(1, 6, 1) = INVALID
+            """);
+    }
+
+    private static void promise08Weeks() {
+        Script.run("weeks: 1 to 20", """
+            boiler(10) | plan(0, 7, 0) = INVALID | plan(0, 7, 21) = INVALID | plan(0, 7, -1) = INVALID
+            plan(0, 7, MIN) = INVALID
+            plan(0, 7, MAX) = INVALID | boilerOf(0, 7) = NOT_FOUND | plan(0, 7, 1) = 7 | plan(0, 7, 20) = 26
+            plan(0, 7, 21) = INVALID | plan(0, 7, 0) = INVALID | boilerOf(0, 7..8) = 7 26 | plan(0, 7, 19) = 25
+            """);
+    }
+
+    private static void promise08UnderSteam() {
+        Script.run("NOT_POSSIBLE if it begins in the week of now and the boiler is under steam", """
+            boiler(10) | inspector(0, 1) | inspect(0, 0) = 10 | pass(2) = 0 | fire(0) = 51
+            plan(0, 2, 1) = NOT_POSSIBLE | plan(0, 2, 20) = NOT_POSSIBLE | plan(0, 2, 0) = INVALID
+            plan(0, 1, 5) = INVALID
+            plan(0, 3, 1) = 3 | plan(0, 2, 1) = NOT_POSSIBLE | boilerOf(0, 7..8) = 3 3 | plan(0, 9999, 1) = 9999
+            out(0) = 0 | plan(0, 2, 1) = 2 | plan(0, 3, 1) = 3 | repair(0) = 1 | plan(0, 2, 2) = 3
+            """);
     }
 
     private static void promise09Repair() {
-        BoilerPapers x = house(10);
-        Check.refused("repair(1)", x, Check.INVALID, y -> y.repair(1));
-        Check.refused("repair(-1)", x, Check.INVALID, y -> y.repair(-1));
-        Check.due("repair without wear", x.repair(0), 1);
-        Check.due("account(2)", x.account(2), 15);
-        Check.due("account(3)", x.account(3), -15);
-        Check.refused("repair in repair", x, Check.IMPOSSIBLE, y -> y.repair(0));
-        BoilerPapers z = worn();
-        z.set(3, 7);
-        Check.due("repair with wear 100", z.repair(0), 11);
-        Check.due("account(2)", z.account(2), 77);
-        Check.due("account(3)", z.account(3), -85);
-        Check.due("weeks paid", z.count(11), 11);
-        Check.due("it is in repair", z.boilerOf(0, 3), 2);
-        Check.due("its end", z.boilerOf(0, 5), 11);
-        Check.due("its wear", z.boilerOf(0, 2), 100);
-        Check.due("its paper", z.paperOf(0, 1), 40);
-        z.undo();
-        z.pass(1);
-        z.fire(0);
-        Check.refused("repair under steam", z, Check.IMPOSSIBLE, y -> y.repair(0));
+        Script.run("Lets a boiler go to repair. Returns how many weeks it takes; NOT_POSSIBLE if it is not cold", """
+            boiler(10) | inspector(0, 3) | repair(1) = INVALID | repair(-1) = INVALID | repair(MIN) = INVALID
+            repair(MAX) = INVALID
+            repair(0) = 1 | boilerOf(0, 0..9) = 10 10 0 2 - 1 0 - - 10 | account(0..3) = 0 0 15 -15
+            repair(0) = NOT_POSSIBLE
+            pass(2) = 0 | inspect(0, 0) = 10 | fire(0) = 53 | repair(0) = NOT_POSSIBLE | pass(5) = 0 | out(0) = 10
+            repair(0) = 2 | boilerOf(0, 0..9) = 10 10 10 2 - 2 0 - - 9 | paperOf(0, 0..2) = 0 10 54 | count(11) = 3
+            account(0..3) = 8 0 45 -53
+            """);
+        Script.run("Lets a boiler go to repair (that is asked for; with 0 cold weeks; in a shutdown)", Setups.worn(121), """
+            inspect(0, 0) = 0 | repair(0) = 13 | undo() = 3 | undo() = 2 | plan(0, 26, 3) = 28 | repair(0) = 13
+            undo() = 3
+            fire(0) = NOT_POSSIBLE | plan(0, 40, 1) = 40 | fire(0) = 27 | out(0) = 121 | boilerOf(0, 4) = 0
+            repair(0) = 13
+            """);
     }
 
-    private static void promise10WearAndColdWeeks() {
-        int[] pressures = {9, 10, 19, 20, 29, 30, 39, 40};
-        int[] growth = {1, 2, 2, 3, 3, 4, 4, 5};
-        BoilerPapers x = new BoilerPapers();
-        for (int i = 0; i < 3; i++) {
-            x.inspector(0, 3);
-        }
-        for (int i = 0; i < 8; i++) {
-            x.boiler(40);
-            x.inspect(i, i / 3);
-            x.press(i, pressures[i]);
-            x.fire(i);
-        }
-        Check.due("pass(1)", x.pass(1), 0);
-        for (int i = 0; i < 8; i++) {
-            Check.due("wear at " + pressures[i], x.boilerOf(i, 2), growth[i]);
-            Check.due("cold weeks under steam", x.boilerOf(i, 4), Check.NONE);
-        }
-        x.pass(38);
-        Check.due("wear after 39 weeks at 40", x.boilerOf(7, 2), 195);
-        x.pass(1);
-        Check.due("wear after 40 weeks at 40", x.boilerOf(7, 2), 200);
-        x.pass(1);
-        Check.due("wear is not above 200", x.boilerOf(7, 2), 200);
-        Check.due("strength with wear 200", x.boilerOf(7, 9), 0);
-        x.out(0);
-        x.pass(4);
-        Check.due("cold weeks", x.boilerOf(0, 4), 4);
-        Check.due("wear of a cold one", x.boilerOf(0, 2), 41);
-        x.boiler(2);
-        BoilerPapers y = house(10);
-        y.pass(5);
-        Check.due("cold weeks of a new one, 5 weeks on", y.boilerOf(0, 4), 6);
-        Check.due("week", y.count(2), 5);
+    private static void promise10Pass() {
+        Script.run("Lets weeks pass. Returns how many boilers are put out in them", """
+            boiler(10) | boiler(10) | inspector(0, 3) | inspector(1, 3) | press(1, 9) = 10 | inspect(0, 0) = 10
+            inspect(1, 1) = 9
+            pass(1) = 0 | fire(0) = 52 | fire(1) = 40 | pass(39) = 0 | count(3) = 3 | pass(1) = 1 | count(3) = 1
+            count(10) = 1
+            boilerOf(1, 2..4) = 40 0 0 | pass(11) = 0 | pass(1) = 1 | count(10) = 2 | pass(60) = 0 | count(10) = 2
+            undo() = 3 | undo() = 2 | count(10) = 1 | pass(60) = 1 | count(10) = 2
+            """);
     }
 
-    private static void promise10PapersRunOut() {
-        BoilerPapers x = house(10);
-        x.boiler(10);
-        x.press(1, 9);
-        x.inspect(0, 0);
-        x.inspect(1, 1);
-        x.fire(0);
-        x.fire(1);
-        Check.due("pass(40)", x.pass(40), 0);
-        Check.due("both under steam", x.count(3), 3);
-        Check.due("pass(1)", x.pass(1), 1);
-        Check.due("only 0 under steam", x.count(3), 1);
-        Check.due("paper is gone", x.paperOf(1, 2), Check.NONE);
-        Check.due("cold weeks", x.boilerOf(1, 4), 0);
-        Check.due("wear of the last week, too", x.boilerOf(1, 2), 41);
-        Check.due("pass(20)", x.pass(20), 1);
-        Check.due("cold weeks, week 61 less 53", x.boilerOf(0, 4), 8);
-        Check.due("wear, 53 weeks of 2", x.boilerOf(0, 2), 106);
-        Check.due("put out by weeks", x.count(10), 2);
-        BoilerPapers y = house(10);
-        y.inspect(0, 1);
-        y.pass(40);
-        Check.due("a cold one's paper in its last week", y.paperOf(0, 2), 40);
-        y.pass(1);
-        Check.due("a cold one's paper is gone", y.paperOf(0, 2), Check.NONE);
-        Check.due("none was put out", y.count(10), 0);
-    }
-
-    private static void promise10Shutdowns() {
-        BoilerPapers x = house(10);
-        x.inspect(0, 0);
-        x.fire(0);
-        x.plan(0, 3, 2);
-        Check.due("pass(2)", x.pass(2), 0);
-        Check.due("pass(1)", x.pass(1), 1);
-        Check.due("it is cold", x.boilerOf(0, 3), 0);
-        Check.due("shutdown stays", x.boilerOf(0, 8), 4);
-        x.pass(1);
-        Check.due("shutdown in its last week", x.boilerOf(0, 7), 3);
-        Check.due("why in its last week", x.why(0, -1), 4);
-        x.pass(1);
-        Check.due("shutdown is gone", x.boilerOf(0, 7), Check.NONE);
-        Check.due("shutdown is gone", x.boilerOf(0, 8), Check.NONE);
-        Check.due("fire behind it", x.fire(0), 48);
-    }
-
-    private static void promise10RepairEnds() {
-        BoilerPapers x = worn();
-        x.pass(1);
-        x.inspect(0, 1);
-        x.plan(0, 30, 20);
-        x.repair(0);
-        x.pass(10);
-        Check.due("its end", x.boilerOf(0, 5), 1);
-        Check.due("still asked for", x.count(5), 1);
-        Check.due("in repair", x.count(4), 1);
-        x.pass(1);
-        Check.due("it is cold", x.boilerOf(0, 3), 0);
-        Check.due("cold weeks", x.boilerOf(0, 4), 0);
-        Check.due("wear is a quarter", x.boilerOf(0, 2), 25);
-        Check.due("nothing is asked for", x.boilerOf(0, 6), 0);
-        Check.due("its shutdown stays", x.boilerOf(0, 7), 30);
-        x.pass(2);
-        Check.due("cold weeks", x.boilerOf(0, 4), 2);
-        BoilerPapers y = house(10);
-        y.inspect(0, 0);
-        y.repair(0);
-        Check.due("paper in repair", y.paperOf(0, 2), 52);
-        y.pass(1);
-        Check.due("paper is gone with the repair", y.paperOf(0, 2), Check.NONE);
-        BoilerPapers z = house(10);
-        z.inspect(0, 1);
-        z.set(0, 0);
-        z.pass(40);
-        z.repair(0);
-        z.undo();
-        z.press(0, 9);
-        z.fire(0);
-        z.pass(1);
-        z.pass(60);
-        Check.due("wear 1 by the week put out", z.boilerOf(0, 2), 1);
-        z.repair(0);
-        z.pass(1);
-        Check.due("a quarter of 1", z.boilerOf(0, 2), 0);
-    }
-
-    private static void promise10RepairEndsBeforePutOut() {
-        BoilerPapers x = house(40);
-        x.inspect(0, 0);
-        x.fire(0);
-        x.pass(30);
-        x.out(0);
-        x.repair(0);
-        Check.due("16 weeks for 150", x.boilerOf(0, 5), 16);
-        x.pass(15);
-        Check.due("paper holds in repair", x.count(6), 1);
-        x.pass(1);
-        Check.due("paper gone", x.count(6), 0);
-        Check.due("wear", x.boilerOf(0, 2), 37);
-        x.pass(3);
-        x.inspect(0, 0);
-        Check.due("paper with wear 37, 49 + 52 - 7", x.paperOf(0, 2), 94);
-        Check.due("paper with wear 37, 40 * 163 / 200", x.paperOf(0, 1), 32);
-    }
-
-    private static void promise10Limits() {
-        BoilerPapers x = house(10);
-        int[] wrong = {0, 61, -1, Integer.MIN_VALUE, Integer.MAX_VALUE};
-        for (int weeks : wrong) {
-            Check.refused("pass(" + weeks + ")", x, Check.INVALID, y -> y.pass(weeks));
-        }
-        for (int i = 0; i < 166; i++) {
-            Check.due("pass(60)", x.pass(60), 0);
-        }
-        Check.due("week", x.count(2), 9960);
-        Check.refused("pass(40)", x, Check.LIMIT, y -> y.pass(40));
-        Check.refused("pass(61) near the end", x, Check.INVALID, y -> y.pass(61));
-        Check.due("pass(39)", x.pass(39), 0);
-        Check.refused("pass(1) in week 9999", x, Check.LIMIT, y -> y.pass(1));
-        Check.due("cold weeks", x.boilerOf(0, 4), 10000);
-        x.inspect(0, 0);
-        Check.due("fire(0) in week 9999", x.fire(0), 53);
-        Check.due("goesOn(0) in week 9999", x.goesOn(0), 53);
+    private static void promise10Weeks() {
+        Script.run("weeks: 1 to 60; INVALID_ARGUMENT if weeks is out of range", """
+            boiler(10) | pass(0) = INVALID | pass(61) = INVALID | pass(-1) = INVALID | pass(MIN) = INVALID
+            pass(MAX) = INVALID
+            count(2) = 0 | pass(1) = 0 | count(2) = 1 | pass(60) = 0 | count(2) = 61 | pass(59) = 0 | count(2) = 120
+            pass(0) = INVALID | pass(61) = INVALID | count(2) = 120 | boilerOf(0, 4) = 121
+            """);
     }
 
     private static void promise11Set() {
-        BoilerPapers x = new BoilerPapers();
-        int[] before = {120, 90, 8, 15};
-        int[] greatest = {200, 200, 99, 99};
-        for (int what = 0; what < 4; what++) {
-            final int w = what;
-            final int above = greatest[what] + 1;
-            Check.refused("set(" + w + ", " + above + ")", x, Check.INVALID, y -> y.set(w, above));
-            Check.refused("set(" + w + ", -1)", x, Check.INVALID, y -> y.set(w, -1));
-            Check.due("set(" + w + ", 0)", x.set(w, 0), before[w]);
-            Check.due("set(" + w + ", greatest)", x.set(w, greatest[w]), 0);
-            Check.due("setting " + w, x.count(20 + w), greatest[w]);
-        }
-        Check.refused("set(4, 0)", x, Check.INVALID, y -> y.set(4, 0));
-        Check.refused("set(-1, 0)", x, Check.INVALID, y -> y.set(-1, 0));
-        Check.refused("set of extremes", x, Check.INVALID,
-            y -> y.set(Integer.MIN_VALUE, Integer.MAX_VALUE));
+        Script.run("Sets a setting. Returns what it was", """
+            set(0, 1) = 120 | set(0, 2) = 1 | set(1, 3) = 90 | set(1, 4) = 3 | set(2, 5) = 8 | set(2, 6) = 5
+            set(3, 7) = 15
+            set(3, 8) = 7 | count(20..23) = 2 4 6 8 | undo() = 3 | count(20..23) = 2 4 6 7
+            """);
     }
 }
