@@ -260,7 +260,8 @@ public final class TermsOfBoilersTest {
             pass(1) = 0 | inspect(0, 0) = 40 | paperOf(0, 2) = 60 | fire(0) = 53 | goesOn(0) = 53
             pass(52) = 0 | boilerOf(0, 3) = 1 | pass(1) = 1
             """);
-        Script.run("A paper holds in the week of now and so many behind it (behind the last week)", Setups.lastWeek(), """
+        Script.run("A paper holds in the week of now and so many behind it (behind the last week)",
+            Setups.lastWeek(), """
             would(0, 0, 1) = 10051 | would(0, 1, 1) = 10039
             inspect(0, 1) = 36 | paperOf(0, 2) = 10039 | inspect(0, 0) = 40 | paperOf(0, 2) = 10051 | fire(0) = 53
             """);

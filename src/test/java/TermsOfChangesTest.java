@@ -20,11 +20,13 @@ public final class TermsOfChangesTest {
         noSuchBoiler();
         noSuchInspector();
         constants();
+        the512thCall();
         Check.finish();
     }
 
     private static void theChanges() {
-        Script.run("The changes are the calls of boiler, inspector, press, inspect, fire, out, plan, repair, pass, set and play", """
+        Script.run("The changes are the calls of boiler, inspector, press, inspect, fire, out, plan, repair, pass, set and play",
+            """
             count(13) = 0 | boiler(10) = 0 | count(13) = 1 | inspector(0, 3) = 0 | count(13) = 2
             press(0, 10) = 10 | count(13) = 3 | undo() = 2 | inspect(0, 0) = 10 | count(13) = 3 | undo() = 2
             plan(0, 0, 1) = 0 | count(13) = 3 | undo() = 2 | repair(0) = 1 | count(13) = 3 | undo() = 2
@@ -115,7 +117,8 @@ public final class TermsOfChangesTest {
             play() = 1 | count(0) = 2 | count(14) = 3 | type(98) = 4 | undo() = 3 | count(0) = 1 | count(14) = 4
             fault(0..2) = 3 1 1 | clearText() = 4 | undo() = 2 | count(14) = 0 | count(1) = 1 | fault(0) = NOT_FOUND
             """);
-        Script.run("each change records everything before it (of a boiler, a paper, a shutdown, accounts)", Setups.worn(121), """
+        Script.run("each change records everything before it (of a boiler, a paper, a shutdown, accounts)",
+            Setups.worn(121), """
             inspect(0, 0) = 0 | repair(0) = 13 | plan(0, 30, 2) = 31 | pass(13) = 0
             boilerOf(0, 0..9) = 40 1 30 0 0 - 0 - - 34 | account(0..3) = 16 0 195 -211
             undo() = 3 | boilerOf(0, 0..9) = 40 1 121 2 - 13 1 30 31 15 | undo() = 2 | boilerOf(0, 7..8) = NOT_FOUND
@@ -227,5 +230,17 @@ public final class TermsOfChangesTest {
             x.boiler(2);
         }
         Check.due("a fixed limit has been reached", x.boiler(2), -2000000003L);
+    }
+
+    private static void the512thCall() {
+        BoilerPapers x = new BoilerPapers();
+        x.set(2, 0);
+        for (int i = 1; i <= 254; i++) {
+            Check.due("set(2, " + i % 100 + ")", x.set(2, i % 100), (i - 1) % 100);
+            Check.due("count(13)", x.count(13), Math.min(i + 1, 4));
+        }
+        Check.due("count(22), the 510th call", x.count(22), 54);
+        Check.due("undo(), the 511th call", x.undo(), 3);
+        Check.due("count(22), the 512th call", x.count(22), 53);
     }
 }

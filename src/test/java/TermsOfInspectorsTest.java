@@ -84,7 +84,8 @@ public final class TermsOfInspectorsTest {
     }
 
     private static void whyItCannotBeInspected() {
-        Script.run("Why a boiler cannot be inspected by an inspector now is the first of these that is so: 1 2 3 5", """
+        Script.run("Why a boiler cannot be inspected by an inspector now is the first of these that is so: 1 2 3 5",
+            """
             boiler(10) | boiler(10) | inspector(0, 1) | inspector(0, 3)
             why(0, 0..1) = 0 | inspect(0, 0) = 10 | why(0, 0..1) = 5 0 | why(1, 0..1) = 5 0
             fire(0) = 53 | why(0, 0..1) = 2 | inspect(0, 0..1) = NOT_POSSIBLE
@@ -192,7 +193,8 @@ public final class TermsOfInspectorsTest {
     }
 
     private static void reasonPressure() {
-        Script.run("6 its working pressure is above that of the paper (the same, one more, one less)", Setups.HOUSE, """
+        Script.run("6 its working pressure is above that of the paper (the same, one more, one less)",
+            Setups.HOUSE, """
             inspect(0, 1) = 36 | why(0, -1) = 6 | press(0, 37) = 40 | why(0, -1) = 6 | fire(0) = NOT_POSSIBLE
             press(0, 35) = 37 | why(0, -1) = 0 | press(0, 36) = 35 | why(0, -1) = 0 | fire(0) = 41
             """);

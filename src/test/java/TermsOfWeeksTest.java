@@ -102,7 +102,8 @@ public final class TermsOfWeeksTest {
             boiler(10) | inspector(0, 1) | inspect(0, 0) = 10 | pass(51) = 0 | repair(0) = 1 | pass(1) = 0
             count(2) = 52 | paperOf(0, 0..2) = NOT_FOUND
             """);
-        Script.run("When the repair ends (what it was built for, its pressure and its shutdown stay)", Setups.worn(50), """
+        Script.run("When the repair ends (what it was built for, its pressure and its shutdown stay)",
+            Setups.worn(50), """
             press(0, 7) = 1 | plan(0, 15, 5) = 19 | repair(0) = 6 | pass(6) = 0
             boilerOf(0, 0..9) = 40 7 12 0 0 - 0 15 19 37
             """);

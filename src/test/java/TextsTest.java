@@ -59,7 +59,8 @@ public final class TextsTest {
     }
 
     private static void promise26Fault() {
-        Script.run("0: its position; 1: its reason; 2: its cause; NOT_FOUND if the text has no fault (also if it is empty)", """
+        Script.run("0: its position; 1: its reason; 2: its cause; NOT_FOUND if the text has no fault (also if it is empty)",
+            """
             fault(0..2) = NOT_FOUND | boiler(10) | inspector(0, 1) | fault(0..2) = NOT_FOUND
             text "i0,0;f0;w53;o0;"
             fault(0..2) = 12 2 NOT_POSSIBLE

@@ -10,13 +10,12 @@ import java.util.List;
 final class Traces {
     static final int MOST_CALLS = 512;
     private static final int MOST_STATES = 4;
-    private static final int CALLS_OF_A_VIEW = 180;
 
     private Traces() {
     }
 
     static void look(String name, List<Call> before, Call call, boolean isError) {
-        if (before.size() + 2 + MOST_STATES + CALLS_OF_A_VIEW > MOST_CALLS) {
+        if (before.size() + 2 + MOST_STATES + View.MOST_CALLS > MOST_CALLS) {
             throw new IllegalArgumentException(name + " comes too late to be looked at");
         }
         if (!isError && call.isChange()) {

@@ -28,7 +28,8 @@ public final class WhatThereIsTest {
     }
 
     private static void promise12NotFound() {
-        Script.run("NOT_FOUND for 4 if it is not cold, for 5 if it is not in repair, for 7 and 8 if none is planned", """
+        Script.run("NOT_FOUND for 4 if it is not cold, for 5 if it is not in repair, for 7 and 8 if none is planned",
+            """
             boiler(10) | inspector(0, 1) | boilerOf(0, 4..5) = 1 - | boilerOf(0, 7..8) = - | inspect(0, 0) = 10
             fire(0) = 53
             boilerOf(0, 4..5) = - | plan(0, 1, 1) = 1 | boilerOf(0, 7..8) = 1 1 | pass(1) = 1

@@ -104,7 +104,8 @@ public final class WhatWouldBeTest {
             better(2) = INVALID
             better(-1) = INVALID | better(MIN) = INVALID | better(MAX) = INVALID
             """);
-        Script.run(title, Setups.worn(1), "press(0, 39) = 1 | better(0) = 0 | press(0, 40) = 39 | better(0) = NOT_FOUND");
+        Script.run(title, Setups.worn(1),
+            "press(0, 39) = 1 | better(0) = 0 | press(0, 40) = 39 | better(0) = NOT_FOUND");
     }
 
     private static void promise18OnlyOneGives() {
@@ -116,14 +117,17 @@ public final class WhatWouldBeTest {
             better(0) = 0 | press(0, 36) = 32 | better(0) = 0 | press(0, 37) = 36 | better(0) = NOT_FOUND
             press(0, 1) = 37 | set(0, 19) = 20 | better(0) = NOT_FOUND
             """);
-        Script.run(title, Setups.worn(91), "better(0) = 0 | press(0, 21) = 1 | better(0) = 0 | press(0, 22) = 21 | better(0) = -");
+        Script.run(title, Setups.worn(91),
+            "better(0) = 0 | press(0, 21) = 1 | better(0) = 0 | press(0, 22) = 21 | better(0) = -");
         Script.run(title, Setups.worn(121), "better(0) = NOT_FOUND | set(1, 121) = 90 | better(0) = 1");
         Script.run(title, Setups.worn(200), "set(0, 200) = 120 | set(1, 200) = 90 | better(0) = NOT_FOUND");
-        Script.run(title, Setups.worn(195), "set(0, 200) = 120 | set(1, 200) = 90 | better(0) = 0 | press(0, 2) = 1 | better(0) = -");
+        Script.run(title, Setups.worn(195),
+            "set(0, 200) = 120 | set(1, 200) = 90 | better(0) = 0 | press(0, 2) = 1 | better(0) = -");
     }
 
     private static void promise18InAnyCondition() {
-        Script.run("Finds the better insurer for a boiler (under steam, in repair, with a repair asked for)", Setups.worn(65), """
+        Script.run("Finds the better insurer for a boiler (under steam, in repair, with a repair asked for)",
+            Setups.worn(65), """
             fire(0) = 39 | better(0) = 1 | out(0) = 65 | better(0) = 1 | pass(1) = 0 | set(0, 0) = 120
             inspect(0, 0) = 0
             set(0, 120) = 0 | better(0) = 1 | repair(0) = 7 | better(0) = 1 | pass(7) = 0 | better(0) = 0
@@ -263,7 +267,8 @@ public final class WhatWouldBeTest {
             count(10) = 2
             undo() = 3 | count(10) = 1
             """);
-        Script.run("11: weeks of repairs that were paid so far (also for nothing, and before they pass)", Setups.worn(39), """
+        Script.run("11: weeks of repairs that were paid so far (also for nothing, and before they pass)",
+            Setups.worn(39), """
             set(3, 0) = 15 | repair(0) = 4 | count(11) = 4 | pass(4) = 0 | count(11) = 4 | repair(0) = 1
             count(11) = 5
             """);
@@ -275,7 +280,8 @@ public final class WhatWouldBeTest {
     }
 
     private static void promise22Sets() {
-        Script.run("3: boilers under steam; 4: in repair; 5: a repair is asked; 6: with a paper; 12: may be fired", """
+        Script.run("3: boilers under steam; 4: in repair; 5: a repair is asked; 6: with a paper; 12: may be fired",
+            """
             8 x boiler(10) | inspector(0, 3) | inspector(0, 3) | inspect(7, 0) = 10 | inspect(5, 0) = 10
             inspect(2, 0) = 10
             inspect(0, 1) = 10 | fire(7) = 53 | fire(0) = 53 | repair(3) = 1 | repair(5) = 1

@@ -47,7 +47,8 @@ public final class WorkTest {
     }
 
     private static void promise06Fire() {
-        Script.run("Fires a boiler: it is under steam then. Returns for how many weeks its paper holds, that of now too", """
+        Script.run("Fires a boiler: it is under steam then. Returns for how many weeks its paper holds, that of now too",
+            """
             boiler(10) | inspector(0, 1) | inspect(0, 0) = 10
             fire(0) = 53 | boilerOf(0, 3) = 1 | count(3) = 1 | undo() = 3
             pass(1) = 0 | fire(0) = 52 | undo() = 3 | pass(50) = 0 | fire(0) = 2 | undo() = 3 | pass(1) = 0
@@ -139,7 +140,8 @@ public final class WorkTest {
             repair(0) = 2 | boilerOf(0, 0..9) = 10 10 10 2 - 2 0 - - 9 | paperOf(0, 0..2) = 0 10 54 | count(11) = 3
             account(0..3) = 8 0 45 -53
             """);
-        Script.run("Lets a boiler go to repair (that is asked for; with 0 cold weeks; in a shutdown)", Setups.worn(121), """
+        Script.run("Lets a boiler go to repair (that is asked for; with 0 cold weeks; in a shutdown)",
+            Setups.worn(121), """
             inspect(0, 0) = 0 | repair(0) = 13 | undo() = 3 | undo() = 2 | plan(0, 26, 3) = 28 | repair(0) = 13
             undo() = 3
             fire(0) = NOT_POSSIBLE | plan(0, 40, 1) = 40 | fire(0) = 27 | out(0) = 121 | boilerOf(0, 4) = 0
