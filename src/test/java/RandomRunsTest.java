@@ -62,7 +62,7 @@ public final class RandomRunsTest {
 
     /** The chance alone seldom meets a pressure that the paper allows. */
     private void fitPressure(int b) {
-        int paper = program.paperOf(b, 1);
+        int paper = model.call("paperOf", b, 1, 0);
         call("press", b, paper + below(3) - 1, 0);
     }
 
