@@ -4,8 +4,10 @@ public final class BoilersAndInspectorsTest {
         promise01NewObject();
         promise01ObjectsOfTheirOwn();
         promise02Boiler();
+        promise02Errors();
         promise02NumberUsedAgain();
         promise03Inspector();
+        promise03Errors();
         promise03NumberUsedAgain();
         promise04Press();
         promise04PressUnderSteam();
@@ -46,6 +48,16 @@ public final class BoilersAndInspectorsTest {
             """);
     }
 
+    private static void promise02Errors() {
+        Script.run("INVALID_ARGUMENT if pressure is out of range; LIMIT_REACHED if there are 8", """
+            boiler(1) = INVALID | boiler(41) = INVALID | boiler(0) = INVALID | boiler(-2) = INVALID
+            boiler(MIN) = INVALID | boiler(MAX) = INVALID | count(0) = 0
+            boiler(2) = 0 | boiler(40) = 1 | 5 x boiler(10) | boiler(10) = 7 | count(0) = 8
+            boiler(10) = LIMIT | boiler(2) = LIMIT | boiler(40) = LIMIT | boiler(1) = INVALID | boiler(41) = INVALID
+            count(0) = 8 | undo() = 3 | boiler(10) = 7 | boiler(10) = LIMIT
+            """);
+    }
+
     private static void promise02NumberUsedAgain() {
         String[] texts = {"b20;i0,0;", "b20;i0,0;f0;w9;o0;w1;i0,1;r0;", "b20;i0,0;f0;w9;", "b20;w3;r0;", "b20;i0,0;f0;"};
         for (String text : texts) {
@@ -64,6 +76,17 @@ public final class BoilersAndInspectorsTest {
             inspector(1, 2) = 0 | inspectorOf(0, 0..4) = 1 2 2 0 0 | inspector(0, 3) = 1
             inspectorOf(1, 0..4) = 0 3 3 0 0
             pass(1) = 0 | inspector(1, 1) = 2 | inspectorOf(2, 0..4) = 1 1 1 0 0 | inspector(0, 1) = 3
+            """);
+    }
+
+    private static void promise03Errors() {
+        Script.run("INVALID_ARGUMENT if an argument is out of range; LIMIT_REACHED if there are 6", """
+            inspector(-1, 1) = INVALID | inspector(2, 1) = INVALID | inspector(MIN, 1) = INVALID
+            inspector(MAX, 1) = INVALID | inspector(0, 0) = INVALID | inspector(0, 4) = INVALID
+            inspector(1, MIN) = INVALID | inspector(1, MAX) = INVALID | count(1) = 0
+            inspector(0, 1) = 0 | inspector(1, 3) = 1 | 3 x inspector(0, 2) | inspector(1, 1) = 5 | count(1) = 6
+            inspector(0, 1) = LIMIT | inspector(1, 3) = LIMIT | inspector(2, 1) = INVALID | inspector(0, 4) = INVALID
+            count(1) = 6 | undo() = 3 | inspector(0, 1) = 5 | inspector(0, 1) = LIMIT
             """);
     }
 

@@ -14,7 +14,9 @@ public final class WorkTest {
         promise09Repair();
         promise10Pass();
         promise10Weeks();
+        promise10Limit();
         promise11Set();
+        promise11Errors();
         Check.finish();
     }
 
@@ -169,11 +171,28 @@ public final class WorkTest {
             """);
     }
 
+    private static void promise10Limit() {
+        Script.run("LIMIT_REACHED if the week would be above 9999", Setups.HOUSE, """
+            166 x pass(60) = 0 | pass(40) = LIMIT | pass(60) = LIMIT | pass(61) = INVALID | count(2) = 9960
+            pass(39) = 0 | count(2) = 9999 | pass(1) = LIMIT | pass(60) = LIMIT | pass(0) = INVALID
+            pass(61) = INVALID | count(2) = 9999 | undo() = 3 | pass(38) = 0 | pass(2) = LIMIT | pass(1) = 0
+            """);
+    }
+
     private static void promise11Set() {
         Script.run("Sets a setting. Returns what it was", """
             set(0, 1) = 120 | set(0, 2) = 1 | set(1, 3) = 90 | set(1, 4) = 3 | set(2, 5) = 8 | set(2, 6) = 5
             set(3, 7) = 15
             set(3, 8) = 7 | count(20..23) = 2 4 6 8 | undo() = 3 | count(20..23) = 2 4 6 7
+            """);
+    }
+
+    private static void promise11Errors() {
+        Script.run("set: INVALID_ARGUMENT if an argument is out of range", """
+            set(-1, 0) = INVALID | set(4, 0) = INVALID | set(MIN, 0) = INVALID | set(MAX, 0) = INVALID
+            set(0..3, -1) = INVALID | set(0..1, 201) = INVALID | set(2..3, 100) = INVALID
+            set(0..3, MIN) = INVALID | set(0..3, MAX) = INVALID | count(20..23) = 120 90 8 15
+            set(0..3, 0) = 120 90 8 15 | set(0..1, 200) = 0 | set(2..3, 99) = 0 | count(20..23) = 200 200 99 99
             """);
     }
 }
